@@ -19,10 +19,14 @@ public final class CircuitTwin {
     private static final int BLANK = 32;
     private static final int LINE_END = 10;
     private static final int DIGIT_ZERO = 48;
+    private static final int DIGIT_NINE = 57;
     private static final int LETTER_A = 97;
     private static final int LETTER_C = 99;
     private static final int LETTER_G = 103;
     private static final int LETTER_I = 105;
+
+    /** Bytes from here on are the first ones of a step of two. */
+    private static final int STEP_BASE = 128;
 
     private final Circuit first;
     private final Circuit second;
@@ -469,7 +473,7 @@ public final class CircuitTwin {
         /** How many different functions there are, an inverse taken for the same. */
         int kinds;
 
-        /** The value at vector x is bit x % 64 of word x / 64 of a slot's row. */
+        /** The value at vector x is bit x % 64 of word x / 64 of a slot's row; that of slot 0 stays all 0. */
         private final long[] rows = new long[SLOTS * MOST_WORDS];
         private final long[] hashes = new long[SLOTS];
         private final int[] leaders = new int[SLOTS];
@@ -486,7 +490,6 @@ public final class CircuitTwin {
             mask = inOneWord ? (1L << (1 << net.inputs)) - 1 : -1L;
             kinds = 0;
             Arrays.fill(buckets, Net.NOTHING);
-            Arrays.fill(rows, 0, words, 0L);
             enter(0);
             for (int k = 0; k < net.inputs; k++) {
                 fillInput(k);
@@ -526,7 +529,7 @@ public final class CircuitTwin {
             int held = buckets[bucket];
             if (held == Net.NOTHING) {
                 buckets[bucket] = slot;
-                leaders[slot] = 2 * (net.own[slot] >> 1);
+                leaders[slot] = net.own[slot];
                 kinds++;
             } else {
                 leaders[slot] = leaders[held] ^ startBit(held) ^ startBit(slot);
@@ -705,7 +708,6 @@ public final class CircuitTwin {
         private static final int NUMBERS_OF_FIRST_LINE = 5;
         private static final int NO_BYTE = -1;
         private static final int NO_STEP = -1;
-        private static final int STEP_BASE = 128;
 
         int length;
         int error;
@@ -893,22 +895,19 @@ public final class CircuitTwin {
             starts[index] = position;
             int number = 0;
             int digits = 0;
-            while (digits < MOST_DIGITS && isDigit(position) && (digits == 0 || number > 0)) {
-                number = 10 * number + byteAt(position) - DIGIT_ZERO;
+            int next = byteAt(position);
+            while (digits < MOST_DIGITS && next >= DIGIT_ZERO && next <= DIGIT_NINE && (digits == 0 || number > 0)) {
+                number = 10 * number + next - DIGIT_ZERO;
                 digits++;
                 position++;
+                next = byteAt(position);
             }
             numbers[index] = number;
-            if (digits == 0 || byteAt(position) != follower) {
+            if (digits == 0 || next != follower) {
                 return fail(code, position);
             }
             position++;
             return true;
-        }
-
-        private boolean isDigit(int index) {
-            int digit = byteAt(index) - DIGIT_ZERO;
-            return digit >= 0 && digit < 10;
         }
 
         private boolean takeOwn(int slot) {
@@ -936,7 +935,6 @@ public final class CircuitTwin {
     /** Writes a circuit's text, with the gates alone that outputs need. */
     private static final class Writer {
         private static final int MOST_BYTES = 4096;
-        private static final int STEP_BASE = 128;
 
         int length;
 
