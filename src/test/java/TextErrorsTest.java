@@ -166,6 +166,7 @@ final class TextErrorsTest {
         due("aag 9 1 0 1 1\n2\n6\n6 10 15\n", 7, 5);
         due("aag 9 1 0 1 1\n2\n17\n6 2 0\n", 7, 8);
         due("aag 9 1 0 1 1\n2\n1\n6 0 1\n", 0, 0);
+        due("aag 1000 0 0 2 0\n1\n2001\n", 7, 1000);
         // behind all others, the end too, and before loops
         due("aag 9 1 0 1 1\n2\n6\n6 10 15\nx", 5, 26);
         due("aag 9 1 0 1 1\n2\n6\n6 6 15\n", 7, 7);

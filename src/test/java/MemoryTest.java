@@ -1,0 +1,82 @@
+import java.lang.management.ManagementFactory;
+import java.lang.reflect.Array;
+import java.lang.reflect.Field;
+import java.lang.reflect.Modifier;
+import java.util.IdentityHashMap;
+
+/** All memory is made in the constructor, once: what an object holds, and that calls make nothing. */
+final class MemoryTest {
+    private static final long ROOM_OF_OBJECTS = 600000;
+    private static final long ROOM_OF_ELEMENTS = 7300000;
+
+    /** So many objects of the class at least must have room together. */
+    private static final int OBJECTS = 30;
+
+    private static final IdentityHashMap<Object, Boolean> SEEN = new IdentityHashMap<>();
+    private static long elements = 0;
+
+    public static void main(String[] args) throws IllegalAccessException {
+        RandomTexts texts = new RandomTexts(3);
+        CircuitTwin twin = Check.twin(texts.aig(14, 300, 16), texts.aag(14, 60, 16));
+        count(twin);
+        int objects = SEEN.size();
+        Check.due("few objects: " + objects, true, () -> objects * OBJECTS < ROOM_OF_OBJECTS);
+        Check.due("few elements: " + elements, true, () -> elements * OBJECTS < ROOM_OF_ELEMENTS);
+        byte[] text = Check.bytes(texts.aig(14, 100, 16));
+        callAll(twin, text);
+        long thread = Thread.currentThread().getId();
+        com.sun.management.ThreadMXBean bean = (com.sun.management.ThreadMXBean) ManagementFactory.getThreadMXBean();
+        bean.getThreadAllocatedBytes(thread);
+        long before = bean.getThreadAllocatedBytes(thread);
+        for (int i = 0; i < 100; i++) {
+            callAll(twin, text);
+        }
+        long made = bean.getThreadAllocatedBytes(thread) - before;
+        Check.due("bytes that calls made: " + made, true, () -> made < 16384);
+        Check.end();
+    }
+
+    private static void callAll(CircuitTwin twin, byte[] text) {
+        for (int i = 0; i < text.length; i++) {
+            twin.feed(1, text[i]);
+        }
+        twin.load(0);
+        twin.compare();
+        twin.witness(0);
+        twin.least(0, 40, 0);
+        twin.greatest(0, 40);
+        twin.same(40, 2);
+        twin.implies(0, 40, 50);
+        twin.depends(0, 40, 3);
+        twin.rises(0, 40, 9);
+        twin.leader(0, 40);
+        twin.functions(0);
+        twin.allFunctions();
+        twin.write(0, true, true);
+        twin.write(0, false, false);
+        twin.out(0);
+        twin.look(0, 6);
+    }
+
+    private static void count(Object made) throws IllegalAccessException {
+        if (made == null || SEEN.put(made, true) != null) {
+            return;
+        }
+        if (made.getClass().isArray()) {
+            elements += Array.getLength(made);
+            for (int i = 0; i < Array.getLength(made) && made instanceof Object[]; i++) {
+                count(Array.get(made, i));
+            }
+            return;
+        }
+        for (Field field : made.getClass().getDeclaredFields()) {
+            if (!Modifier.isStatic(field.getModifiers())) {
+                elements++;
+                field.setAccessible(true);
+                if (!field.getType().isPrimitive()) {
+                    count(field.get(made));
+                }
+            }
+        }
+    }
+}
