@@ -7,7 +7,12 @@ final class Check {
     static final String STATE = "IllegalStateException";
     static final String ELEMENT = "NoSuchElementException";
 
+    /** A right text that stands in both circuits before a text is tried by dueLoad. */
+    private static final String BEFORE = "aag 5 2 0 1 1\n2\n10\n7\n6 10 2\n";
+    private static final int[] LOOKS_BEFORE = {2, 1, 1, 5};
+
     private static int wrong = 0;
+    private static String about = "";
 
     private Check() {
     }
@@ -25,13 +30,37 @@ final class Check {
         }
     }
 
+    /** What the checks behind this are about: words of the document. */
+    static void sentence(String words) {
+        about = "'" + words + "': ";
+    }
+
     static void due(String what, Object want, Call call) {
         Object got = answerOf(call);
         if (!want.equals(got)) {
             wrong++;
             if (wrong <= 50) {
-                System.out.println(what + " answered " + got + ", due is " + want);
+                System.out.println(about + what + " answered " + got + ", due is " + want);
             }
+        }
+    }
+
+    /** On a new object: the error of a text and its place, the tape used up, and for an error all else as before. */
+    static void dueLoad(String text, int error, int place) {
+        CircuitTwin twin = twin(BEFORE, BEFORE);
+        String shown = text.length() > 60 ? text.substring(0, 60) + ".. (" + text.length() + ")" : text;
+        due("load of " + shown, error, () -> load(twin, 0, text));
+        due("look 4 behind " + shown, error, () -> twin.look(0, 4));
+        due("look 5 behind " + shown, place, () -> twin.look(0, 5));
+        due("look 7 behind " + shown, 0, () -> twin.look(0, 7));
+        due("look 4 of the other", 0, () -> twin.look(1, 4));
+        due("look 5 of the other", 0, () -> twin.look(1, 5));
+        for (int what = 0; what < LOOKS_BEFORE.length && error != 0; what++) {
+            int asked = what;
+            due("look " + what + " behind " + shown, LOOKS_BEFORE[what], () -> twin.look(0, asked));
+        }
+        if (error != 0) {
+            due("compare behind " + shown, -1, () -> twin.compare());
         }
     }
 

@@ -9,6 +9,9 @@ import java.util.Set;
 final class ModelTest {
     private static final RandomTexts TEXTS = new RandomTexts(20261115L);
 
+    private static CircuitTwin used = new CircuitTwin();
+    private static int calls = 0;
+
     public static void main(String[] args) {
         for (int run = 0; run < 1500; run++) {
             int inputs = TEXTS.below(9);
@@ -19,6 +22,7 @@ final class ModelTest {
             run("wide " + run, someText(inputs, 60), someText(inputs, 60));
         }
         run("full", TEXTS.aig(14, 300, 16), TEXTS.aag(14, 300, 16));
+        everyByte();
         spoiledTexts();
         loops();
         Check.end();
@@ -165,13 +169,31 @@ final class ModelTest {
         return first.function(literal).equals(second.function(other ^ 1)) ? -1 : 0;
     }
 
+    /** Texts with every byte of theirs in turn made every other one, left out, and put in once more. */
+    private static void everyByte() {
+        int[] met = new int[9];
+        String aag = "aag 13 2 0 2 3\n12\n4\n8\n27\n8 12 5\n26 8 10\n10 0 13\nc\n";
+        String aig = "aig 66 1 0 1 65\n132\n" + "\2\0".repeat(64) + "\2\200\1";
+        String small = "aig 3 1 0 1 2\n6\n\1\1\2\3";
+        for (String text : new String[] {aag, small, aig}) {
+            for (int at = 0; at < text.length(); at++) {
+                String before = text.substring(0, at);
+                String behind = text.substring(at + 1);
+                for (int b = 0; b < 256; b++) {
+                    checkError(before + (char) b + behind, met);
+                }
+                checkError(before + behind, met);
+                checkError(before + text.charAt(at) + text.charAt(at) + behind, met);
+            }
+        }
+    }
+
     private static void spoiledTexts() {
-        CircuitTwin twin = new CircuitTwin();
         int[] met = new int[9];
         for (int run = 0; run < 40000; run++) {
             int inputs = TEXTS.below(4);
             String text = TEXTS.spoiled(TEXTS.text(inputs, TEXTS.below(run % 10 == 0 ? 80 : 6), TEXTS.below(3)));
-            checkError(twin, text, met);
+            checkError(text, met);
         }
         for (int error = 0; error < met.length; error++) {
             int times = met[error];
@@ -181,7 +203,6 @@ final class ModelTest {
 
     /** Gates on any literals at all: many texts with loops, some of which only lead to one. */
     private static void loops() {
-        CircuitTwin twin = new CircuitTwin();
         int[] met = new int[9];
         for (int run = 0; run < 5000; run++) {
             int inputs = TEXTS.below(5);
@@ -195,15 +216,22 @@ final class ModelTest {
                 text.append(2 * (inputs + k) + " " + TEXTS.below(2 * (inputs + gates) + 2));
                 text.append(" " + TEXTS.below(2 * inputs + 2) + "\n");
             }
-            checkError(twin, text.toString(), met);
+            checkError(text.toString(), met);
         }
         Check.due("loops are met", true, () -> met[8] > 1000);
         Check.due("not all are loops", true, () -> met[0] > 100);
     }
 
-    private static void checkError(CircuitTwin twin, String text, int[] met) {
+    /** On one object again and again, but for no more calls than the document allows. */
+    private static void checkError(String text, int[] met) {
         Model model = Model.read(text);
         met[model.error]++;
+        calls += text.length() / 8 + 3;
+        if (calls > 512) {
+            used = new CircuitTwin();
+            calls = text.length() / 8 + 3;
+        }
+        CircuitTwin twin = used;
         Check.due("load of " + text, model.error, () -> Check.load(twin, 0, text));
         Check.due("place in " + text, model.place, () -> twin.look(0, 5));
     }

@@ -64,8 +64,7 @@ final class RandomTexts {
         for (int k = 0; k < gates; k++) {
             int own = 2 * (inputs + 1 + k);
             int left = below(own);
-            putStep(text, own - left);
-            putStep(text, left - below(left + 1));
+            text.append(Texts.step(own - left)).append(Texts.step(left - below(left + 1)));
         }
         return text.append(tail()).toString();
     }
@@ -79,14 +78,6 @@ final class RandomTexts {
 
     private String tail() {
         return below(4) == 0 ? "c\nwhatever \0\377" : "";
-    }
-
-    private static void putStep(StringBuilder text, int step) {
-        if (step < 128) {
-            text.append((char) step);
-        } else {
-            text.append((char) (128 + step % 128)).append((char) (step / 128));
-        }
     }
 
     /** A text with a byte or two changed, left out, added, or with its end cut off. */

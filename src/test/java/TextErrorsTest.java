@@ -1,7 +1,5 @@
 /** Promise 3 and the document's errors 1 to 8, each with its place (look 4 and 5). */
 final class TextErrorsTest {
-    private static final CircuitTwin TWIN = new CircuitTwin();
-
     public static void main(String[] args) {
         kinds();
         firstLines();
@@ -17,9 +15,7 @@ final class TextErrorsTest {
     }
 
     private static void due(String text, int error, int place) {
-        Check.due("load of " + text, error, () -> Check.load(TWIN, 0, text));
-        Check.due("error of " + text, error, () -> TWIN.look(0, 4));
-        Check.due("place in " + text, place, () -> TWIN.look(0, 5));
+        Check.dueLoad(text, error, place);
     }
 
     private static void kinds() {

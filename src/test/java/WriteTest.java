@@ -83,22 +83,13 @@ final class WriteTest {
             int own = 2 * k + 2;
             int lesser = k == gates ? lastLesser : 1;
             aag.append(own + " " + (own - 2) + " " + lesser + "\n");
-            step(aig, 2);
-            step(aig, own - 2 - lesser);
+            aig.append(Texts.step(2)).append(Texts.step(own - 2 - lesser));
         }
         due(aag.toString(), false, false, aag.toString());
         due(aag.toString(), true, false, aig.toString());
         due(aig.toString(), false, false, aag.toString());
         due(aig.toString(), true, false, aig.toString());
         due(aig.toString(), true, true, "aig 1 1 0 1 0\n" + (lastLesser == 2 ? 3 : 1) + "\n");
-    }
-
-    private static void step(StringBuilder text, int step) {
-        if (step < 128) {
-            text.append((char) step);
-        } else {
-            text.append((char) (step % 128 + 128)).append((char) (step / 128));
-        }
     }
 
     private static void outBytes() {
