@@ -91,6 +91,8 @@ final class CallBoundsTest {
     }
 
     private static void fullTape() {
+        Check.sentence("The TAPE has at most 8192 bytes, none at first");
+        Check.due("a new tape", 0, () -> new CircuitTwin().look(1, 7));
         Check.sentence("IllegalStateException when it would have more than 8192.");
         for (int last = 1; last <= 8; last++) {
             CircuitTwin twin = new CircuitTwin();
@@ -328,7 +330,14 @@ final class CallBoundsTest {
                 Check.due("same of no other literal", Check.ARGUMENT, () -> twin.same(0, 30));
             }
         }
-        Check.due("14 and 14 match", -1, () -> Check.twin(outputs(14, 28), outputs(14, 28)).compare());
+        Check.sentence("The circuits MATCH if they have as many inputs.");
+        for (int inputs = 0; inputs <= 14; inputs++) {
+            CircuitTwin twin = Check.twin(outputs(inputs, 1), Texts.chain(false, 400, inputs, 1, 1));
+            int count = inputs;
+            Check.due("compare of " + count, 0, () -> twin.compare());
+            Check.due("allFunctions of " + count, count + 1, () -> twin.allFunctions());
+            Check.due("same of " + count, 1, () -> twin.same(2 * count, 2 * count));
+        }
     }
 
     private static void witnessAnswers() {

@@ -148,6 +148,12 @@ final class ErrorOrderTest {
         due(turnedChain(300, 0), 0, 0);
         due(turnedChain(300, 600), 8, 1);
         due(turnedChain(300, 2), 8, 1);
+        // from each gate to the next by both of its literals: a million ways and more, but few gates
+        StringBuilder ring = new StringBuilder("aag 300 0 0 0 300\n");
+        for (int k = 1; k <= 300; k++) {
+            ring.append(2 * k + " " + (2 * (k % 300) + 2) + " " + (2 * (k % 300) + 3) + "\n");
+        }
+        due(ring.toString(), 8, 1);
     }
 
     /** Gate lines from the last one back; the first gate rests on a literal of its own. */

@@ -200,6 +200,15 @@ final class FormBoundsTest {
         }
         due(withLast(CHAIN, "\202\1\0"), 0, 0);
         due(withLast(CHAIN, "\202\4\0"), 0, 0);
+        // what stands behind a wrong step of a gate that is not the last one is not read
+        for (String behind : new String[] {"\0\0", "\2\0", "\377\177\0", "\2\377\177", "c\n"}) {
+            for (String wrong : new String[] {"\200\0", "\200\200", "\377\377"}) {
+                due("aig 3 1 0 0 2\n" + wrong + behind, 5, 15);
+                due("aig 3 1 0 0 2\n\2" + wrong + behind, 5, 16);
+                due("aig 3 1 0 0 2\n\2\0" + wrong + behind, 5, 17);
+                due("aig 3 1 0 0 2\n\2\0\2" + wrong + behind, 5, 18);
+            }
+        }
     }
 
     private static void stepsThatCannotBe() {

@@ -16,6 +16,7 @@ final class MemoryTest {
     private static long elements = 0;
 
     public static void main(String[] args) throws IllegalAccessException {
+        Check.sentence("All memory is the class's own, made once.");
         RandomTexts texts = new RandomTexts(3);
         CircuitTwin twin = Check.twin(texts.aig(14, 300, 16), texts.aag(14, 60, 16));
         count(twin);

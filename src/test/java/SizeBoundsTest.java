@@ -13,6 +13,8 @@ final class SizeBoundsTest {
         variableZero();
         standing();
         literals();
+        ands();
+        aigVariables();
         firstCircuits();
         vectors();
         inputOrder();
@@ -186,6 +188,44 @@ final class SizeBoundsTest {
                 int[] due = {0, x % 2, x / 2, x == 1 ? 1 : 0};
                 Check.due(literal + " at " + x, due[variable], () -> twin.value(0, literal, vector));
                 Check.due(literal + 1 + " at " + x, 1 - due[variable], () -> twin.value(0, literal + 1, vector));
+            }
+        }
+    }
+
+    private static void ands() {
+        Check.sentence("A gate is the AND of two literals; an output is a literal.");
+        int[][] rows = {{2, 4, 3}, {4, 2, 3}, {2, 5, 1}, {3, 4, 2}, {3, 5, 0}};
+        for (int[] row : rows) {
+            String output = row[2] % 2 == 0 ? "6\n" : "7\n";
+            CircuitTwin twin = Check.twin("aag 3 2 0 1 1\n2\n4\n" + output + "6 " + row[0] + " " + row[1] + "\n", "aag 0 0 0 0 0\n");
+            for (int x = 0; x < 4; x++) {
+                int vector = x;
+                Check.due(row[0] + " AND " + row[1] + " at " + x, x == row[2] ? 1 : 0, () -> twin.value(0, 6, vector));
+            }
+            Check.due("the output", output, () -> twin.literal(0, 2, 0) + "\n");
+        }
+        int[][] ofOne = {{2, 2, 2}, {2, 3, 0}, {3, 3, 1}, {2, 0, 0}, {2, 1, 2}, {0, 0, 0}, {0, 1, 0}, {1, 1, 3}};
+        for (int[] row : ofOne) {
+            CircuitTwin twin = Check.twin("aag 2 1 0 0 1\n2\n4 " + row[0] + " " + row[1] + "\n", "aag 0 0 0 0 0\n");
+            Check.due(row[0] + " AND " + row[1] + " at 0", row[2] % 2, () -> twin.value(0, 4, 0));
+            Check.due(row[0] + " AND " + row[1] + " at 1", row[2] / 2, () -> twin.value(0, 4, 1));
+        }
+    }
+
+    private static void aigVariables() {
+        Check.sentence("M is I + A; input k (from 0 on) is variable k + 1, gate k variable I + 1 + k.");
+        for (int[] sizes : new int[][] {{0, 0}, {0, 1}, {1, 0}, {1, 1}, {14, 0}, {0, 300}, {14, 300}, {13, 7}}) {
+            int inputs = sizes[0];
+            CircuitTwin twin = Check.twin("aag 0 0 0 0 0\n", Texts.chain(true, inputs + sizes[1], inputs, 0, sizes[1]));
+            Check.due("M", inputs + sizes[1], () -> twin.look(1, 3));
+            for (int what = 0; what < 2; what++) {
+                int first = what == 0 ? 2 : 2 * inputs + 2;
+                int w = what;
+                for (int k = 0; k < sizes[what]; k++) {
+                    int at = k;
+                    Check.due("literal(1, " + w + ", " + k + ")", first + 2 * k, () -> twin.literal(1, w, at));
+                }
+                Check.due("literal behind the last", Check.ELEMENT, () -> twin.literal(1, w, sizes[w]));
             }
         }
     }

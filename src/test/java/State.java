@@ -19,6 +19,18 @@ final class State {
         return state.seen.toString();
     }
 
+    /** The first of all that is not the same, "nothing" without one. */
+    static String difference(String before, String behind) {
+        String[] one = before.split(" ");
+        String[] two = behind.split(" ");
+        for (int i = 0; i < Math.min(one.length, two.length); i++) {
+            if (!one[i].equals(two[i])) {
+                return one[i] + " became " + two[i] + " at " + i;
+            }
+        }
+        return one.length == two.length ? "nothing" : "the length";
+    }
+
     private void add(String name, Check.Call call) {
         seen.append(name).append('=').append(Check.answerOf(call)).append(' ');
     }
@@ -51,10 +63,16 @@ final class State {
                 }
             }
         }
+        int inputs = twin.look(circuit, 0);
         for (int literal : literals) {
             add("leader of " + literal, () -> twin.leader(circuit, literal));
             add("least", () -> twin.least(circuit, literal, 0));
             add("greatest", () -> twin.greatest(circuit, literal));
+            add("rises", () -> twin.rises(circuit, literal, 0));
+            add("rises", () -> twin.rises(circuit, literal, inputs - 1));
+            for (int other : literals) {
+                add("implies " + other, () -> twin.implies(circuit, literal, other));
+            }
         }
     }
 }

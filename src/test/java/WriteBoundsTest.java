@@ -174,6 +174,11 @@ final class WriteBoundsTest {
         String text = "aag 9 2 0 2 4\n2\n4\n6\n16\n16 8 18\n18 2 4\n6 18 9\n8 3 5\n";
         due(text, false, false, "aag 6 2 0 2 4\n2\n4\n10\n12\n6 5 3\n8 4 2\n10 8 7\n12 8 6\n");
         due(text, true, false, "aig 6 2 0 2 4\n10\n12\n\1\2\4\2\2\1\4\2");
+        // 3 rests on 8 alone, which is of depth 1 as 9 is: 3 comes behind both
+        due("aag 9 2 0 2 3\n2\n4\n6\n18\n6 16 2\n16 2 4\n18 3 5\n", false, false,
+                "aag 5 2 0 2 3\n2\n4\n10\n8\n6 4 2\n8 5 3\n10 6 2\n");
+        Check.sentence("An aag's gates come in the order of their numbers.");
+        due("aag 5 1 0 1 4\n2\n10\n10 8 8\n8 6 6\n6 4 4\n4 2 2\n", false, false, Texts.chain(false, 5, 1, 1, 4));
         // a double of depth 300 does not hold up the one of depth 1 with the greatest variable
         String last = Texts.chain(false, 300, 0, 1, 300).replace("600 598 598\n", "600 1 1\n");
         due(last, false, false, "aag 1 0 0 1 1\n2\n2 1 1\n");
