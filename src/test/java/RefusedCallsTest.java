@@ -3,7 +3,7 @@ import java.util.List;
 
 /**
  * The sentence of each promise that begins with 'Throws', in states of every kind: what is thrown just beyond each
- * bound and far beyond it, and that all that can be seen of the object behind that is as before.
+ * bound and far beyond it, and that what State sees of the object behind that is as before.
  */
 final class RefusedCallsTest {
     private static final String XOR = "aag 6 2 0 2 4\n2\n4\n11\n13\n6 2 5\n8 3 4\n10 7 9\n12 3 5\n";

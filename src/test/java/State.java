@@ -1,7 +1,7 @@
 import java.util.ArrayList;
 import java.util.List;
 
-/** All that can be seen of an object, as one text: two objects in the same state have the same. */
+/** What can be seen of an object, as one text: every look, OUT whole, and of many literals the first and the last ones. */
 final class State {
     private final StringBuilder seen = new StringBuilder();
     private final CircuitTwin twin;
