@@ -12,9 +12,10 @@ final class CallBoundsTest {
     public static void main(String[] args) {
         feedLengths();
         feedBytes();
-        fullTape();
-        fullTapeUsedUp();
+        longestTape();
+        tapeUsedUp();
         circuits();
+        firstListed();
         loadTellsErrors();
         literalOfCircuit();
         literalsOfCalls();
@@ -33,7 +34,7 @@ final class CallBoundsTest {
 
     private static void feedLengths() {
         Check.sentence("Throws IllegalArgumentException when n is not 1 .. 8");
-        CircuitTwin twin = new CircuitTwin();
+        Twin twin = new Twin();
         for (int n : new int[] {0, 9, -1, 10, 16, -8, 257, 65537, Integer.MIN_VALUE, Integer.MIN_VALUE + 1, Integer.MAX_VALUE}) {
             Check.due("feed " + n, Check.ARGUMENT, () -> twin.feed(n, -1L));
             Check.due("the tape behind feed " + n, 0, () -> twin.look(0, 7));
@@ -51,7 +52,7 @@ final class CallBoundsTest {
         Check.sentence("The n lowest bytes of v, lowest first, come behind the tape: how many it has.");
         String text = "aag 0 0 0 0 0\nc\n";
         for (int n = 1; n <= 8; n++) {
-            CircuitTwin twin = new CircuitTwin();
+            Twin twin = new Twin();
             for (int at = 0; at < text.length(); at += n) {
                 int count = Math.min(n, text.length() - at);
                 int due = at + count;
@@ -74,7 +75,7 @@ final class CallBoundsTest {
 
     /** Bytes that are the steps of the last of 130 gates, and what follows them. */
     private static void feedSteps(long v, int n) {
-        CircuitTwin twin = new CircuitTwin();
+        Twin twin = new Twin();
         Check.feed(twin, Check.bytes("aig 130 0 0 0 130\n" + "\2\0".repeat(129)));
         Check.due("feed " + n, 276 + n, () -> twin.feed(n, v));
         Model model = Model.read("aig 130 0 0 0 130\n" + "\2\0".repeat(129) + bytesOf(v, n));
@@ -90,54 +91,35 @@ final class CallBoundsTest {
         return text.toString();
     }
 
-    private static void fullTape() {
+    private static void longestTape() {
         Check.sentence("The TAPE has at most 8192 bytes, none at first");
-        Check.due("a new tape", 0, () -> new CircuitTwin().look(1, 7));
-        Check.sentence("IllegalStateException when it would have more than 8192.");
-        for (int last = 1; last <= 8; last++) {
-            CircuitTwin twin = new CircuitTwin();
-            int n = last;
-            fill(twin, 8192 - n);
-            for (int more = n + 1; more <= 8; more++) {
-                int tooMany = more;
-                Check.due("feed " + more + " to " + (8192 - n), Check.STATE, () -> twin.feed(tooMany, 0));
-                Check.due("the tape stays", 8192 - n, () -> twin.look(0, 7));
-            }
-            Check.due("feed " + n + " to " + (8192 - n), 8192, () -> twin.feed(n, 0));
-            for (int more = 1; more <= 8; more++) {
-                int tooMany = more;
-                Check.due("feed " + more + " to a full tape", Check.STATE, () -> twin.feed(tooMany, 0));
-            }
-            for (int wrong : new int[] {0, 9, -1, Integer.MIN_VALUE, Integer.MAX_VALUE}) {
-                Check.due("feed " + wrong + " to a full tape", Check.ARGUMENT, () -> twin.feed(wrong, 0));
-            }
-            Check.due("look 7 of a full tape", 8192, () -> twin.look(1, 7));
+        Check.due("a new tape", 0, () -> new Twin().look(1, 7));
+        // as many as 512 calls can bring
+        Twin twin = new Twin();
+        for (int call = 1; call <= Twin.MOST_CALLS; call++) {
+            Check.due("feed number " + call, 8 * call, () -> twin.feed(8, -1L));
         }
     }
 
-    private static void fullTapeUsedUp() {
+    private static void tapeUsedUp() {
         Check.sentence("The tape, which is used up, is read as a circuit");
-        String full = GAPS + "c\n" + "z".repeat(8192 - GAPS.length() - 2);
-        for (String text : new String[] {full, "x".repeat(8192), "", "x", GAPS}) {
-            CircuitTwin twin = new CircuitTwin();
+        String full = GAPS + "c\n" + "z".repeat(1600);
+        for (String text : new String[] {full, "x".repeat(1600), "", "x", GAPS}) {
+            Twin twin = new Twin();
             Check.feed(twin, Check.bytes(text));
             Check.due("look 7", text.length(), () -> twin.look(0, 7));
             Check.due("load", text.startsWith("aag") ? 0 : 1, () -> twin.load(0));
             Check.due("look 7 behind it", 0, () -> twin.look(0, 7));
             Check.due("an empty tape is loaded", 1, () -> twin.load(1));
             Check.due("a new text", 0, () -> Check.load(twin, 1, NONE));
-            Check.due("a full tape again", 0, () -> Check.load(twin, 1, full));
+            Check.due("a long tape again", 0, () -> Check.load(twin, 1, full));
             Check.due("its M", 7, () -> twin.look(1, 3));
         }
     }
 
-    private static void fill(CircuitTwin twin, int length) {
-        Check.feed(twin, new byte[length]);
-    }
-
     private static void circuits() {
         Check.sentence("Throws IllegalArgumentException when there is no such circuit (as all calls that name one do).");
-        CircuitTwin twin = Check.twin(GAPS, GAPS);
+        Twin twin = Check.twin(GAPS, GAPS);
         for (int circuit : NO_CIRCUITS) {
             String of = " of circuit " + circuit;
             Check.due("load" + of, Check.ARGUMENT, () -> twin.load(circuit));
@@ -161,6 +143,25 @@ final class CallBoundsTest {
         }
     }
 
+    private static void firstListed() {
+        Check.sentence("Of several exceptions that hold the one listed first is thrown");
+        Twin twin = Check.twin(GAPS, "aag 9 1 0 1 0\n18\n18\n");
+        Check.due("literal: no circuit, no what", Check.ARGUMENT, () -> twin.literal(2, 3, 0));
+        Check.due("literal: no circuit, no input", Check.ARGUMENT, () -> twin.literal(-1, 0, 2));
+        Check.due("literal: no what", Check.ELEMENT, () -> twin.literal(0, 3, 0));
+        Check.due("witness: no match, no output", Check.STATE, () -> twin.witness(-1));
+        Check.due("witness: no match, no output of one", Check.STATE, () -> twin.witness(2));
+        Check.due("same: no literal, no match", Check.ARGUMENT, () -> twin.same(2, 18));
+        Check.due("same: no other, no match", Check.ARGUMENT, () -> twin.same(10, 2));
+        Check.due("same: no match", Check.STATE, () -> twin.same(10, 18));
+        Check.due("depends: no circuit, no input", Check.ARGUMENT, () -> twin.depends(2, 0, 14));
+        Check.due("depends: no literal, no input", Check.ARGUMENT, () -> twin.depends(0, 2, 2));
+        Check.due("depends: no input", Check.ELEMENT, () -> twin.depends(0, 10, 2));
+        Check.due("rises: no circuit, no input", Check.ARGUMENT, () -> twin.rises(2, 0, 14));
+        Check.due("rises: no literal, no input", Check.ARGUMENT, () -> twin.rises(0, 2, 2));
+        Check.due("rises: no input", Check.ELEMENT, () -> twin.rises(0, 10, 2));
+    }
+
     private static void loadTellsErrors() {
         Check.sentence("or its error, and the circuit stays (look 4 and 5 tell it, 0 and 0 when it was right)");
         String[] wrong = {"", "aag 1", "aag 1 1 1 0 0\n", "aag 0 1 0 0 0\n", "aag 4 1 0 1 1\n2\n9\n8 2 2", "aag 4 1 0 1 1\n2\n9\n9 2 2\n",
@@ -170,7 +171,7 @@ final class CallBoundsTest {
             int error = i + 1;
             int place = places[i];
             String text = wrong[i];
-            CircuitTwin twin = new CircuitTwin();
+            Twin twin = new Twin();
             Check.due("load into a new one", error, () -> Check.load(twin, 1, text));
             Check.due("look 4", error, () -> twin.look(1, 4));
             Check.due("look 5", place, () -> twin.look(1, 5));
@@ -187,7 +188,7 @@ final class CallBoundsTest {
         }
     }
 
-    private static void staysAsGaps(CircuitTwin twin) {
+    private static void staysAsGaps(Twin twin) {
         int[] looks = {2, 2, 3, 7};
         for (int what = 0; what < looks.length; what++) {
             int asked = what;
@@ -204,7 +205,7 @@ final class CallBoundsTest {
 
     private static void literalOfCircuit() {
         Check.sentence("NoSuchElementException when there is none, or no such what.");
-        CircuitTwin twin = Check.twin(GAPS, NONE);
+        Twin twin = Check.twin(GAPS, NONE);
         int[][] due = {{10, 4}, {6, 12}, {6, 13, 0}};
         for (int what = 0; what < 3; what++) {
             int w = what;
@@ -224,23 +225,23 @@ final class CallBoundsTest {
 
     private static void literalsOfCalls() {
         Check.sentence("when the literal is not 0 .. 2 * M + 1, or its variable stands for nothing and is not 0 (as all calls that name one do)");
-        CircuitTwin gaps = Check.twin(GAPS, GAPS);
+        Twin gaps = Check.twin(GAPS, GAPS);
         Set<Integer> standing = Set.of(0, 1, 4, 5, 6, 7, 10, 11, 12, 13);
         for (int literal = -3; literal <= 18; literal++) {
             ofLiteral(gaps, literal, standing.contains(literal));
         }
-        CircuitTwin far = Check.twin("aag 1000 1 0 0 0\n2000\n", "aag 1000 1 0 0 0\n2000\n");
+        Twin far = Check.twin("aag 1000 1 0 0 0\n2000\n", "aag 1000 1 0 0 0\n2000\n");
         for (int literal : new int[] {0, 1, 2000, 2001}) {
             ofLiteral(far, literal, true);
         }
         for (int literal : new int[] {2, 3, 1998, 1999, 2002, 2003, 4000}) {
             ofLiteral(far, literal, false);
         }
-        CircuitTwin none = new CircuitTwin();
+        Twin none = new Twin();
         ofLiteral(none, 0, true);
         ofLiteral(none, 1, true);
         ofLiteral(none, 2, false);
-        for (CircuitTwin twin : new CircuitTwin[] {Check.twin(GAPS, GAPS), far, none}) {
+        for (Twin twin : new Twin[] {Check.twin(GAPS, GAPS), far, none}) {
             for (int literal : new int[] {-1, -4, Integer.MIN_VALUE, Integer.MIN_VALUE + 1, Integer.MIN_VALUE + 4,
                 Integer.MAX_VALUE, Integer.MAX_VALUE - 1, 1 << 16, (1 << 30) + 4}) {
                 ofLiteral(twin, literal, false);
@@ -249,7 +250,7 @@ final class CallBoundsTest {
     }
 
     /** Every call that names a literal, with all else right; an input is asked for only where there is one. */
-    private static void ofLiteral(CircuitTwin twin, int literal, boolean stands) {
+    private static void ofLiteral(Twin twin, int literal, boolean stands) {
         boolean hasInput = twin.look(0, 0) > 0;
         refused("value", literal, stands, () -> twin.value(0, literal, 0));
         refused("least", literal, stands, () -> twin.least(0, literal, 0));
@@ -278,7 +279,7 @@ final class CallBoundsTest {
 
     private static void vectorsOfCalls() {
         Check.sentence("or there is no such vector");
-        CircuitTwin twin = Check.twin(GAPS, NONE);
+        Twin twin = Check.twin(GAPS, NONE);
         for (int x = 0; x < 4; x++) {
             int vector = x;
             Check.due("value at " + x, x == 3 ? 1 : 0, () -> twin.value(0, 6, vector));
@@ -307,12 +308,12 @@ final class CallBoundsTest {
             other[at] ^= 1;
             other[15] ^= at == 15 ? 0 : 1;
             int due = at;
-            CircuitTwin twin = Check.twin(outputs(2, same), outputs(2, other));
+            Twin twin = Check.twin(outputs(2, same), outputs(2, other));
             Check.due("output " + at + " and the last", due, () -> twin.compare());
         }
         Check.due("all are the same", -1, () -> Check.twin(outputs(2, same), outputs(2, same)).compare());
         Check.due("no outputs", -1, () -> Check.twin(outputs(2), outputs(2)).compare());
-        Check.due("no outputs, no inputs", -1, () -> new CircuitTwin().compare());
+        Check.due("no outputs, no inputs", -1, () -> new Twin().compare());
         Check.due("one more in the second", -2, () -> Check.twin(outputs(2, 0), outputs(2, 0, 0)).compare());
         Check.due("one more in the first", -2, () -> Check.twin(outputs(2, 0, 0), outputs(2, 1)).compare());
         Check.due("none in the first", -2, () -> Check.twin(outputs(2), outputs(2, 1)).compare());
@@ -320,7 +321,7 @@ final class CallBoundsTest {
         Check.sentence("Throws IllegalStateException when they don't match (as all calls do that say so).");
         for (int[] inputs : new int[][] {{0, 1}, {1, 0}, {13, 14}, {14, 13}, {0, 14}, {14, 0}}) {
             for (int more = 0; more < 2; more++) {
-                CircuitTwin twin = Check.twin(outputs(inputs[0], 0), more == 0 ? outputs(inputs[1], 0) : outputs(inputs[1], 0, 0));
+                Twin twin = Check.twin(outputs(inputs[0], 0), more == 0 ? outputs(inputs[1], 0) : outputs(inputs[1], 0, 0));
                 Check.due("compare", Check.STATE, () -> twin.compare());
                 Check.due("witness", Check.STATE, () -> twin.witness(0));
                 Check.due("same", Check.STATE, () -> twin.same(0, 0));
@@ -332,7 +333,7 @@ final class CallBoundsTest {
         }
         Check.sentence("The circuits MATCH if they have as many inputs.");
         for (int inputs = 0; inputs <= 14; inputs++) {
-            CircuitTwin twin = Check.twin(outputs(inputs, 1), Texts.chain(false, 400, inputs, 1, 1));
+            Twin twin = Check.twin(outputs(inputs, 1), Texts.chain(false, 400, inputs, 1, 1));
             int count = inputs;
             Check.due("compare of " + count, 0, () -> twin.compare());
             Check.due("allFunctions of " + count, count + 1, () -> twin.allFunctions());
@@ -344,19 +345,19 @@ final class CallBoundsTest {
         Check.sentence("NoSuchElementException when not both have this output.");
         int[] sixteen = new int[16];
         sixteen[15] = 1;
-        CircuitTwin full = Check.twin(outputs(3, sixteen), outputs(3, new int[16]));
+        Twin full = Check.twin(outputs(3, sixteen), outputs(3, new int[16]));
         Check.due("witness of the first of 16", -1, () -> full.witness(0));
         Check.due("witness of the last of 16", 0, () -> full.witness(15));
         for (int output : new int[] {-1, 16, 17, Integer.MAX_VALUE, Integer.MIN_VALUE}) {
             Check.due("witness of " + output, Check.ELEMENT, () -> full.witness(output));
         }
         for (int turn = 0; turn < 2; turn++) {
-            CircuitTwin twin = turn == 0 ? Check.twin(outputs(3, 2, 4), outputs(3, 2, 6, 0)) : Check.twin(outputs(3, 2, 6, 0), outputs(3, 2, 4));
+            Twin twin = turn == 0 ? Check.twin(outputs(3, 2, 4), outputs(3, 2, 6, 0)) : Check.twin(outputs(3, 2, 6, 0), outputs(3, 2, 4));
             Check.due("witness of an output of both", 2, () -> twin.witness(1));
             Check.due("witness of an output of one", Check.ELEMENT, () -> twin.witness(2));
             Check.due("witness of an output of none", Check.ELEMENT, () -> twin.witness(3));
         }
-        Check.due("witness of a new one", Check.ELEMENT, () -> new CircuitTwin().witness(0));
+        Check.due("witness of a new one", Check.ELEMENT, () -> new Twin().witness(0));
         Check.sentence("The least vector at which an output of both is not the same; -1 without one.");
         Check.due("no vector", -1, () -> Check.twin(outputs(14, 28), outputs(14, 28)).witness(0));
         Check.due("no vector of no inputs", -1, () -> Check.twin(outputs(0, 1), outputs(0, 1)).witness(0));
@@ -387,7 +388,7 @@ final class CallBoundsTest {
     private static void leastAnswers() {
         Check.sentence("The least vector, from itself on, at which the literal is 1; -1 without one.");
         for (int inputs : new int[] {0, 1, 5, 6, 7, 14}) {
-            CircuitTwin twin = Check.twin(allOnes(inputs), NONE);
+            Twin twin = Check.twin(allOnes(inputs), NONE);
             int last = (1 << inputs) - 1;
             int all = inputs == 0 ? 1 : 4 * inputs;
             String name = inputs + " inputs: ";
@@ -412,7 +413,7 @@ final class CallBoundsTest {
     private static void greatestAnswers() {
         Check.sentence("The greatest vector at which the literal is 1; -1 without one.");
         for (int inputs : new int[] {0, 1, 5, 6, 7, 14}) {
-            CircuitTwin twin = Check.twin(NONE, allOnes(inputs));
+            Twin twin = Check.twin(NONE, allOnes(inputs));
             int last = (1 << inputs) - 1;
             int all = inputs == 0 ? 1 : 4 * inputs;
             String name = inputs + " inputs: ";
@@ -422,14 +423,14 @@ final class CallBoundsTest {
             Check.due(name + "none", -1, () -> twin.greatest(1, 0));
         }
         // the AND of all inverses is 1 at vector 0 alone
-        CircuitTwin zero = Check.twin("aag 3 2 0 0 1\n2\n4\n6 3 5\n", NONE);
+        Twin zero = Check.twin("aag 3 2 0 0 1\n2\n4\n6 3 5\n", NONE);
         Check.due("vector 0 alone", 0, () -> zero.greatest(0, 6));
         Check.due("a gate that is never 1", -1, () -> Check.twin("aag 2 1 0 0 1\n2\n4 2 3\n", NONE).greatest(0, 4));
     }
 
     private static void sameAnswers() {
         Check.sentence("have the same function (1), one the other's inverse (-1), or neither (0)");
-        CircuitTwin none = new CircuitTwin();
+        Twin none = new Twin();
         for (int literal = 0; literal < 2; literal++) {
             for (int other = 0; other < 2; other++) {
                 int one = literal;
@@ -438,7 +439,7 @@ final class CallBoundsTest {
             }
         }
         for (int inputs : new int[] {1, 6, 7, 14}) {
-            CircuitTwin twin = Check.twin(allOnes(inputs), outputs(inputs));
+            Twin twin = Check.twin(allOnes(inputs), outputs(inputs));
             int all = 4 * inputs;
             int neither = inputs == 1 ? -1 : 0;
             Check.due("differs at the last vector alone", 0, () -> twin.same(all, 0));
@@ -449,7 +450,7 @@ final class CallBoundsTest {
             Check.due("the gate before all", inputs == 1 ? 1 : 0, () -> twin.same(all, 2 * inputs));
         }
         Check.sentence("Throws IllegalArgumentException when one of them stands for nothing; IllegalStateException when they don't match.");
-        CircuitTwin unlike = Check.twin(GAPS, "aag 9 1 0 0 0\n18\n");
+        Twin unlike = Check.twin(GAPS, "aag 9 1 0 0 0\n18\n");
         Check.due("both stand", Check.STATE, () -> unlike.same(10, 18));
         Check.due("the first does not", Check.ARGUMENT, () -> unlike.same(14, 18));
         Check.due("the second does not", Check.ARGUMENT, () -> unlike.same(10, 10));
@@ -460,7 +461,7 @@ final class CallBoundsTest {
     private static void impliesAnswers() {
         Check.sentence("Whether the second literal is 1 wherever the first one is.");
         for (int inputs : new int[] {1, 6, 7, 14}) {
-            CircuitTwin twin = Check.twin(allOnes(inputs), NONE);
+            Twin twin = Check.twin(allOnes(inputs), NONE);
             int all = 4 * inputs;
             boolean one = inputs == 1;
             boolean[] got = {twin.implies(0, all, 2), twin.implies(0, 2, all), twin.implies(0, 1, all ^ 1), twin.implies(0, all, all ^ 1),
@@ -472,7 +473,7 @@ final class CallBoundsTest {
                 Check.due("row " + i + " with " + inputs + " inputs", due[i], () -> answer);
             }
         }
-        CircuitTwin none = new CircuitTwin();
+        Twin none = new Twin();
         Check.due("0 implies 0", true, () -> none.implies(1, 0, 0));
         Check.due("0 implies 1", true, () -> none.implies(1, 0, 1));
         Check.due("1 implies 0", false, () -> none.implies(1, 1, 0));
@@ -482,7 +483,7 @@ final class CallBoundsTest {
     private static void inputsOfCalls() {
         Check.sentence("NoSuchElementException when there is no such input.");
         for (int inputs = 0; inputs <= 14; inputs++) {
-            CircuitTwin twin = Check.twin(outputs(inputs), NONE);
+            Twin twin = Check.twin(outputs(inputs), NONE);
             int last = 2 * inputs;
             for (int k = 0; k < inputs; k++) {
                 int at = k;
@@ -516,7 +517,7 @@ final class CallBoundsTest {
                 text.append(gate + 2 + " " + (one + 1) + " " + (two + 1) + "\n");
                 text.append(gate + 4 + " " + (gate + 1) + " " + (gate + 3) + "\n");
                 int at = k;
-                CircuitTwin twin = Check.twin(text.toString(), NONE);
+                Twin twin = Check.twin(text.toString(), NONE);
                 int[] due = {1, -1, -1, 1, 0, 0};
                 for (int i = 0; i < due.length; i++) {
                     int literal = gate + i;
@@ -540,7 +541,7 @@ final class CallBoundsTest {
         Check.sentence("Whether a literal's function depends on input k.");
         for (int inputs : new int[] {1, 6, 7, 14}) {
             // a difference at two vectors alone, the last one and the one without input k
-            CircuitTwin twin = Check.twin(allOnes(inputs), NONE);
+            Twin twin = Check.twin(allOnes(inputs), NONE);
             for (int k = 0; k < inputs; k++) {
                 int at = k;
                 Check.due("all depend on " + k, true, () -> twin.depends(0, 4 * inputs, at));
@@ -552,29 +553,29 @@ final class CallBoundsTest {
 
     private static void functionCounts() {
         Check.sentence("the variables of a circuit have that stand for something or are 0 (so 1 at least)");
-        Check.due("a new one", 1, () -> new CircuitTwin().functions(0));
-        Check.due("both new ones", 1, () -> new CircuitTwin().allFunctions());
+        Check.due("a new one", 1, () -> new Twin().functions(0));
+        Check.due("both new ones", 1, () -> new Twin().allFunctions());
         Check.due("variables that stand for nothing", 1, () -> Check.twin("aag 1000 0 0 0 0\n", NONE).functions(0));
         Check.due("a gate that is always 1", 1, () -> Check.twin("aag 1 0 0 0 1\n2 1 1\n", NONE).functions(0));
         for (int inputs = 0; inputs <= 14; inputs++) {
             int count = inputs;
-            CircuitTwin twin = Check.twin(outputs(count), allOnes(Math.max(1, count)));
+            Twin twin = Check.twin(outputs(count), allOnes(Math.max(1, count)));
             Check.due("inputs alone", count + 1, () -> twin.functions(0));
             Check.due("with all their ANDs", 2 * Math.max(1, count), () -> twin.functions(1));
             Check.due("of both", count == 0 ? Check.STATE : 2 * count, () -> twin.allFunctions());
         }
-        CircuitTwin chain = Check.twin(Texts.chain(true, 314, 14, 0, 300), Texts.chain(false, 300, 0, 0, 300));
+        Twin chain = Check.twin(Texts.chain(true, 314, 14, 0, 300), Texts.chain(true, 300, 0, 0, 300));
         Check.due("300 doubles", 15, () -> chain.functions(0));
         Check.due("300 gates of no inputs", 1, () -> chain.functions(1));
         Check.sentence("those that are each other's inverse taken for one");
-        CircuitTwin inverse = Check.twin("aag 4 2 0 0 2\n2\n4\n6 2 4\n8 7 7\n", "aag 4 2 0 0 2\n2\n4\n6 3 3\n8 2 4\n");
+        Twin inverse = Check.twin("aag 4 2 0 0 2\n2\n4\n6 2 4\n8 7 7\n", "aag 4 2 0 0 2\n2\n4\n6 3 3\n8 2 4\n");
         Check.due("a gate and its inverse", 4, () -> inverse.functions(0));
         Check.due("an input and its inverse", 4, () -> inverse.functions(1));
         Check.due("all of both", 4, () -> inverse.allFunctions());
         Check.sentence("The same of both circuits together.");
-        CircuitTwin apart = Check.twin("aag 3 2 0 0 1\n2\n4\n6 2 4\n", "aag 3 2 0 0 1\n2\n4\n6 3 4\n");
+        Twin apart = Check.twin("aag 3 2 0 0 1\n2\n4\n6 2 4\n", "aag 3 2 0 0 1\n2\n4\n6 3 4\n");
         Check.due("one more in each", 5, () -> apart.allFunctions());
-        CircuitTwin turned = Check.twin("aag 2 2 0 0 0\n2\n4\n", "aag 2 2 0 0 0\n4\n2\n");
+        Twin turned = Check.twin("aag 2 2 0 0 0\n2\n4\n", "aag 2 2 0 0 0\n4\n2\n");
         Check.due("inputs by their order", 3, () -> turned.allFunctions());
         Check.due("the same circuit twice", 4, () -> Check.twin(GAPS, GAPS).allFunctions());
     }

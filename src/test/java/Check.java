@@ -47,7 +47,7 @@ final class Check {
 
     /** On a new object: the error of a text and its place, the tape used up, and for an error all else as before. */
     static void dueLoad(String text, int error, int place) {
-        CircuitTwin twin = twin(BEFORE, BEFORE);
+        Twin twin = twin(BEFORE, BEFORE);
         String shown = text.length() > 60 ? text.substring(0, 60) + ".. (" + text.length() + ")" : text;
         due("load of " + shown, error, () -> load(twin, 0, text));
         due("look 4 behind " + shown, error, () -> twin.look(0, 4));
@@ -75,7 +75,7 @@ final class Check {
         return text.getBytes(StandardCharsets.ISO_8859_1);
     }
 
-    static void feed(CircuitTwin twin, byte[] text) {
+    static void feed(Twin twin, byte[] text) {
         for (int from = 0; from < text.length; from += 8) {
             int n = Math.min(8, text.length - from);
             long v = 0;
@@ -86,20 +86,20 @@ final class Check {
         }
     }
 
-    static int load(CircuitTwin twin, int circuit, String text) {
+    static int load(Twin twin, int circuit, String text) {
         feed(twin, bytes(text));
         return twin.load(circuit);
     }
 
     /** A new object with two circuits that must be right. */
-    static CircuitTwin twin(String first, String second) {
-        CircuitTwin twin = new CircuitTwin();
+    static Twin twin(String first, String second) {
+        Twin twin = new Twin();
         due("load(0) of " + first, 0, () -> load(twin, 0, first));
         due("load(1) of " + second, 0, () -> load(twin, 1, second));
         return twin;
     }
 
-    static byte[] outBytes(CircuitTwin twin) {
+    static byte[] outBytes(Twin twin) {
         ByteArrayOutputStream all = new ByteArrayOutputStream();
         int length = twin.look(0, 8);
         for (int k = 0; k < length; k += 8) {
@@ -111,7 +111,7 @@ final class Check {
         return all.toByteArray();
     }
 
-    static String outText(CircuitTwin twin) {
+    static String outText(Twin twin) {
         return new String(outBytes(twin), StandardCharsets.ISO_8859_1);
     }
 }

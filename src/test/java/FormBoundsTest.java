@@ -141,7 +141,7 @@ final class FormBoundsTest {
 
     private static void emptyTape() {
         Check.sentence("the first four bytes are none of the two kinds' (place 0; also when there are fewer)");
-        CircuitTwin twin = new CircuitTwin();
+        Twin twin = new Twin();
         Check.due("load of an empty tape", 1, () -> twin.load(0));
         Check.due("look 4", 1, () -> twin.look(0, 4));
         Check.due("look 5", 0, () -> twin.look(0, 5));
@@ -171,7 +171,7 @@ final class FormBoundsTest {
     }
 
     private static void rightStep(int own, int p, int q) {
-        CircuitTwin twin = new CircuitTwin();
+        Twin twin = new Twin();
         String name = "steps " + p + " and " + q;
         Check.due(name, 0, () -> Check.load(twin, 0, withLast(own / 2, Texts.step(p) + Texts.step(q))));
         // what the gate rests on alone is written, so it becomes the variable behind its greater literal's
@@ -266,7 +266,7 @@ final class FormBoundsTest {
             due(text + "c\nx", 0, 0);
             due(text + "c\nc", 0, 0);
             due(text + "c\nc\n" + text, 0, 0);
-            due(text + "c\n" + "z".repeat(8192 - text.length() - 2), 0, 0);
+            due(text + "c\n" + "z".repeat(3800), 0, 0);
         }
         // the two errors behind all others are met behind such an end too
         due("aag 2 1 0 1 0\n2\n4\nc\nx", 7, 2);
@@ -279,7 +279,7 @@ final class FormBoundsTest {
         int[][] orders = {{0, 1, 2}, {0, 2, 1}, {1, 0, 2}, {1, 2, 0}, {2, 0, 1}, {2, 1, 0}};
         for (int[] order : orders) {
             String text = "aag 5 2 0 1 3\n2\n4\n11\n" + lines[order[0]] + lines[order[1]] + lines[order[2]];
-            CircuitTwin twin = Check.twin(text, "aag 0 0 0 0 0\n");
+            Twin twin = Check.twin(text, "aag 0 0 0 0 0\n");
             for (int k = 0; k < 3; k++) {
                 int at = k;
                 Check.due("gate " + k + " of " + text, 6 + 2 * order[k], () -> twin.literal(0, 1, at));

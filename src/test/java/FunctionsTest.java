@@ -16,7 +16,7 @@ final class FunctionsTest {
     }
 
     private static void literals() {
-        CircuitTwin twin = Check.twin(XOR, "aig 3 1 0 2 2\n7\n0\n\2\0\1\1");
+        Twin twin = Check.twin(XOR, "aig 3 1 0 2 2\n7\n0\n\2\0\1\1");
         int[][] due = {{10, 2}, {8, 4, 6, 12}, {8, 13, 5}};
         int[][] dueSecond = {{2}, {4, 6}, {7, 0}};
         for (int what = 0; what < 3; what++) {
@@ -38,7 +38,7 @@ final class FunctionsTest {
     }
 
     private static void values() {
-        CircuitTwin twin = Check.twin(XOR, XOR);
+        Twin twin = Check.twin(XOR, XOR);
         row(twin, 0, "0000");
         row(twin, 1, "1111");
         row(twin, 10, "0101");
@@ -66,7 +66,7 @@ final class FunctionsTest {
     }
 
     /** The values at vectors 0, 1, 2 and 3. */
-    private static void row(CircuitTwin twin, int literal, String due) {
+    private static void row(Twin twin, int literal, String due) {
         for (int x = 0; x < due.length(); x++) {
             int vector = x;
             Check.due("value(0, " + literal + ", " + x + ")", due.charAt(x) - '0', () -> twin.value(0, literal, vector));
@@ -74,7 +74,7 @@ final class FunctionsTest {
     }
 
     private static void leastAndGreatest() {
-        CircuitTwin twin = Check.twin(XOR, XOR);
+        Twin twin = Check.twin(XOR, XOR);
         int[][] rows = {{8, 0, 1}, {8, 1, 1}, {8, 2, 2}, {8, 3, -1}, {9, 1, 3}, {4, 0, 3}, {6, 0, 0}, {6, 1, -1},
             {12, 0, -1}, {13, 3, 3}, {0, 0, -1}, {1, 2, 2}};
         for (int[] row : rows) {
@@ -88,7 +88,7 @@ final class FunctionsTest {
 
     /** Fourteen inputs; gate 0 is inputs 12 and 13, gate 1 that without input 5. */
     private static void wideOnes() {
-        CircuitTwin twin = Check.twin("aig 16 14 0 1 2\n32\n\2\2\2\21", "aig 14 14 0 0 0\n");
+        Twin twin = Check.twin("aig 16 14 0 1 2\n32\n\2\2\2\21", "aig 14 14 0 0 0\n");
         int[][] rows = {{30, 0, 12288}, {30, 12289, 12289}, {30, 16383, 16383}, {31, 12288, -1}, {31, 12287, 12287},
             {28, 0, 8192}, {32, 12288, 12288}, {32, 12319, 12319}, {32, 12320, 12352}, {33, 12288, 12320},
             {2, 16382, 16383}, {3, 16383, -1}, {14, 1, 64}, {14, 128, 192}};
@@ -117,7 +117,7 @@ final class FunctionsTest {
     }
 
     private static void implications() {
-        CircuitTwin twin = Check.twin(XOR, XOR);
+        Twin twin = Check.twin(XOR, XOR);
         int[][] yes = {{4, 10}, {4, 2}, {4, 9}, {6, 11}, {8, 5}, {0, 4}, {0, 0}, {4, 1}, {12, 0}, {1, 13}, {8, 8}, {12, 8}};
         for (int[] pair : yes) {
             Check.due(pair[0] + " implies " + pair[1], true, () -> twin.implies(0, pair[0], pair[1]));
@@ -129,7 +129,7 @@ final class FunctionsTest {
     }
 
     private static void dependence() {
-        CircuitTwin twin = Check.twin(XOR, XOR);
+        Twin twin = Check.twin(XOR, XOR);
         for (int k = 0; k < 2; k++) {
             int at = k;
             for (int literal : new int[] {4, 5, 6, 7, 8, 9}) {
@@ -149,7 +149,7 @@ final class FunctionsTest {
     }
 
     private static void rising() {
-        CircuitTwin twin = Check.twin(XOR, XOR);
+        Twin twin = Check.twin(XOR, XOR);
         int[][] rows = {{10, 0, 1}, {10, 1, 2}, {11, 0, -1}, {2, 1, 1}, {4, 0, 1}, {4, 1, 1}, {5, 1, -1}, {6, 0, -1},
             {7, 0, 1}, {8, 0, 0}, {8, 1, 0}, {9, 0, 0}, {12, 0, 2}, {13, 1, 2}, {0, 0, 2}, {1, 1, 2}};
         for (int[] row : rows) {
@@ -158,7 +158,7 @@ final class FunctionsTest {
     }
 
     private static void noInputs() {
-        CircuitTwin twin = Check.twin("aag 2 0 0 1 1\n4\n4 1 1\n", "aag 0 0 0 0 0\n");
+        Twin twin = Check.twin("aag 2 0 0 1 1\n4\n4 1 1\n", "aag 0 0 0 0 0\n");
         Check.due("value", 1, () -> twin.value(0, 4, 0));
         Check.due("inverted", 0, () -> twin.value(0, 5, 0));
         Check.due("vector 1", Check.ARGUMENT, () -> twin.value(0, 4, 1));

@@ -20,7 +20,7 @@ final class HashTwinsTest {
         int output = and(lower ^ 1, upper ^ 1) ^ 1;
         String inputs = "2\n4\n6\n8\n10\n12\n14\n";
         String text = "aag " + (INPUTS + gates) + " 7 0 1 " + gates + "\n" + inputs + output + "\n" + LINES;
-        CircuitTwin twin = Check.twin(text, "aag 7 7 0 1 0\n" + inputs + "0\n");
+        Twin twin = Check.twin(text, "aag 7 7 0 1 0\n" + inputs + "0\n");
         int kinds = Model.read(text).kinds().size();
         Check.due("least", 1, () -> twin.least(0, output, 0));
         Check.due("leader", output, () -> twin.leader(0, output));

@@ -1,5 +1,4 @@
 import java.util.ArrayList;
-import java.util.Collections;
 import java.util.List;
 import java.util.Random;
 
@@ -7,11 +6,13 @@ import java.util.Random;
 final class LeftoversTest {
     private static final Random RANDOM = new Random(5);
 
+    /** So many calls at most bring an object to its state, so that some of the 512 are left for looking at it. */
+    private static final int MOST_CHANGES = 400;
+
     public static void main(String[] args) {
         Check.sentence("All memory is the class's own, made once.");
         List<String> texts = texts();
-        for (int run = 0; run < 12; run++) {
-            Collections.shuffle(texts, RANDOM);
+        for (int run = 0; run < 400; run++) {
             loads(texts);
             writes(texts);
         }
@@ -22,7 +23,8 @@ final class LeftoversTest {
     private static List<String> texts() {
         List<String> texts = new ArrayList<>();
         texts.add("aag 0 0 0 0 0\n");
-        texts.add(Texts.full());
+        texts.add(Texts.wide(30));
+        texts.add(Texts.chain(true, 314, 14, 16, 300));
         texts.add(Texts.chain(true, 300, 0, 16, 300));
         texts.add(Texts.chain(false, 14, 14, 16, 0));
         texts.add(Texts.chain(false, 1000, 7, 3, 20));
@@ -33,42 +35,59 @@ final class LeftoversTest {
         texts.add("aag 300 0 0 1 2\n4\n2 4 1\n4 2 1\n");
         texts.add("aag 300 14 0");
         RandomTexts random = new RandomTexts(11);
+        texts.add(random.aig(14, 300, 16));
         for (int inputs = 0; inputs <= 14; inputs += 2) {
             texts.add(random.text(inputs, 40, 8));
         }
         return texts;
     }
 
-    /** Each text in turn into the circuits of one object, against a new one that knows the two latest right ones alone. */
+    /** Texts by chance into the circuits of one object, against a new one that knows the two latest right ones alone. */
     private static void loads(List<String> texts) {
-        CircuitTwin used = new CircuitTwin();
+        Twin used = new Twin();
         String[] right = {"aag 0 0 0 0 0\n", "aag 0 0 0 0 0\n"};
-        for (String text : texts) {
+        for (String text : someOf(texts)) {
             int circuit = RANDOM.nextInt(2);
-            int error = Check.load(used, circuit, text);
-            right[circuit] = error == 0 ? text : right[circuit];
-            CircuitTwin fresh = Check.twin(right[0], right[1]);
-            // so that the errors of the latest loads are the same in both
-            for (int c = 0; c < 2; c++) {
-                used.load(c);
-                fresh.load(c);
-            }
-            Check.due("what many loads left", "nothing", () -> State.difference(State.of(fresh), State.of(used)));
+            right[circuit] = Check.load(used, circuit, text) == 0 ? text : right[circuit];
         }
+        Twin fresh = Check.twin(right[0], right[1]);
+        // so that the errors of the latest loads are the same in both
+        for (int c = 0; c < 2; c++) {
+            used.load(c);
+            fresh.load(c);
+        }
+        Check.due("what loads left", "nothing", () -> State.difference(State.of(fresh), State.of(used)));
     }
 
     private static void writes(List<String> texts) {
-        CircuitTwin used = new CircuitTwin();
-        for (String text : texts) {
-            int circuit = RANDOM.nextInt(2);
-            if (Check.load(used, circuit, text) != 0) {
-                continue;
+        Twin used = new Twin();
+        String latest = "aag 0 0 0 0 0\n";
+        boolean binary = false;
+        boolean reduced = false;
+        for (String text : someOf(texts)) {
+            if (Check.load(used, 0, text) == 0) {
+                latest = text;
             }
-            boolean binary = RANDOM.nextBoolean();
-            boolean reduced = RANDOM.nextBoolean();
-            CircuitTwin fresh = Check.twin(text, text);
-            Check.due("bytes behind many writes", fresh.write(circuit, binary, reduced), () -> used.write(circuit, binary, reduced));
-            Check.due("text behind many writes", Check.outText(fresh), () -> Check.outText(used));
+            binary = RANDOM.nextBoolean();
+            reduced = RANDOM.nextBoolean();
+            used.write(0, binary, reduced);
         }
+        Twin fresh = Check.twin("aag 0 0 0 0 0\n", latest);
+        fresh.write(1, binary, reduced);
+        Check.due("text behind many writes", Check.outText(fresh), () -> Check.outText(used));
+    }
+
+    private static List<String> someOf(List<String> texts) {
+        List<String> some = new ArrayList<>();
+        int calls = 0;
+        for (int i = 0; i < 12; i++) {
+            String text = texts.get(RANDOM.nextInt(texts.size()));
+            int more = text.length() / 8 + 3;
+            if (calls + more <= MOST_CHANGES) {
+                calls += more;
+                some.add(text);
+            }
+        }
+        return some;
     }
 }

@@ -9,8 +9,7 @@ import java.util.Set;
 final class ModelTest {
     private static final RandomTexts TEXTS = new RandomTexts(20261115L);
 
-    private static CircuitTwin used = new CircuitTwin();
-    private static int calls = 0;
+    private static Twin used = new Twin();
 
     public static void main(String[] args) {
         for (int run = 0; run < 1500; run++) {
@@ -21,7 +20,8 @@ final class ModelTest {
             int inputs = 10 + TEXTS.below(5);
             run("wide " + run, someText(inputs, 60), someText(inputs, 60));
         }
-        run("full", TEXTS.aig(14, 300, 16), TEXTS.aag(14, 300, 16));
+        run("full aig", TEXTS.aig(14, 300, 16), TEXTS.aig(14, 300, 16));
+        run("full aag", TEXTS.aag(14, 300, 16), TEXTS.aig(14, 5, 16));
         everyByte();
         spoiledTexts();
         loops();
@@ -33,7 +33,7 @@ final class ModelTest {
     }
 
     private static void run(String name, String first, String second) {
-        CircuitTwin twin = Check.twin(first, second);
+        Twin twin = Check.twin(first, second);
         Model[] models = {Model.read(first), Model.read(second)};
         for (int c = 0; c < 2; c++) {
             Model model = models[c];
@@ -50,7 +50,7 @@ final class ModelTest {
         both(name, twin, models[0], models[1]);
     }
 
-    private static void looks(String name, CircuitTwin twin, int circuit, Model model) {
+    private static void looks(String name, Twin twin, int circuit, Model model) {
         int[] due = {model.inputs.size(), model.gates.size(), model.outputs.size(), model.largest, 0, 0,
             model.outputDepth(), 0};
         for (int what = 0; what < due.length; what++) {
@@ -59,7 +59,7 @@ final class ModelTest {
         }
     }
 
-    private static void literals(String name, CircuitTwin twin, int circuit, Model model) {
+    private static void literals(String name, Twin twin, int circuit, Model model) {
         List<Integer> gates = new ArrayList<>();
         for (int[] gate : model.gates) {
             gates.add(gate[0]);
@@ -86,7 +86,7 @@ final class ModelTest {
         return chosen;
     }
 
-    private static void ofLiteral(String name, CircuitTwin twin, int c, Model model, int literal) {
+    private static void ofLiteral(String name, Twin twin, int c, Model model, int literal) {
         String call = name + " circuit " + c + " literal " + literal;
         boolean stands = literal >= 0 && literal <= 2 * model.largest + 1 && model.variables().contains(literal / 2);
         int x = TEXTS.below(model.vectors());
@@ -118,7 +118,7 @@ final class ModelTest {
         Check.due(call + " leader", model.leader(literal), () -> twin.leader(c, literal));
     }
 
-    private static void writes(String name, CircuitTwin twin, int circuit, Model model) {
+    private static void writes(String name, Twin twin, int circuit, Model model) {
         for (int form = 0; form < 4; form++) {
             boolean binary = form % 2 == 1;
             boolean reduced = form / 2 == 1;
@@ -129,7 +129,7 @@ final class ModelTest {
         }
     }
 
-    private static void both(String name, CircuitTwin twin, Model first, Model second) {
+    private static void both(String name, Twin twin, Model first, Model second) {
         if (first.inputs.size() != second.inputs.size()) {
             Check.due(name + " compare", Check.STATE, () -> twin.compare());
             Check.due(name + " witness", Check.STATE, () -> twin.witness(0));
@@ -226,12 +226,10 @@ final class ModelTest {
     private static void checkError(String text, int[] met) {
         Model model = Model.read(text);
         met[model.error]++;
-        calls += text.length() / 8 + 3;
-        if (calls > 512) {
-            used = new CircuitTwin();
-            calls = text.length() / 8 + 3;
+        if (used.callsLeft() < text.length() / 8 + 3) {
+            used = new Twin();
         }
-        CircuitTwin twin = used;
+        Twin twin = used;
         Check.due("load of " + text, model.error, () -> Check.load(twin, 0, text));
         Check.due("place in " + text, model.place, () -> twin.look(0, 5));
     }

@@ -1,23 +1,16 @@
 import java.util.ArrayList;
 import java.util.List;
+import java.util.Map;
 
 /**
  * The sentence of each promise that begins with 'Throws', in states of every kind: what is thrown just beyond each
  * bound and far beyond it, and that what State sees of the object behind that is as before.
  */
 final class RefusedCallsTest {
-    private static final String XOR = "aag 6 2 0 2 4\n2\n4\n11\n13\n6 2 5\n8 3 4\n10 7 9\n12 3 5\n";
-    private static final String GAPS = "aag 7 2 0 3 2\n10\n4\n6\n13\n0\n6 10 4\n12 6 11\n";
-    private static final String ONE = "aig 2 1 0 1 1\n5\n\1\1";
     private static final int[] NO_CIRCUITS = {-1, 2, Integer.MIN_VALUE, Integer.MAX_VALUE};
 
-    interface Maker {
-        CircuitTwin make();
-    }
-
-    interface Refused {
-        Object on(CircuitTwin twin);
-    }
+    /** So many refused calls are made on one object. */
+    private static final int IN_A_ROW = 100;
 
     interface OfCircuit {
         Object on(CircuitTwin twin, int circuit);
@@ -27,79 +20,41 @@ final class RefusedCallsTest {
         Object on(CircuitTwin twin, int circuit, int literal);
     }
 
-    private record Row(String sentence, String name, String exception, Refused call) {
+    private record Row(String sentence, String name, String exception, Twin.Call call) {
     }
 
     private static List<Row> rows;
     private static String sentence;
 
-    /** The object that tells the bounds, in the state that is looked at. */
-    private static CircuitTwin asked;
+    /** The object that tells the bounds, in the state that is looked at, and literals that neither circuit has. */
+    private static Twin asked;
+    private static int[][] noLiterals;
 
     public static void main(String[] args) {
-        check("new", RefusedCallsTest::newOne);
-        check("matching", RefusedCallsTest::matching);
-        check("behind errors", RefusedCallsTest::behindErrors);
-        check("not matching", RefusedCallsTest::notMatching);
-        check("full", RefusedCallsTest::full);
+        States.all().forEach(RefusedCallsTest::check);
         Check.end();
     }
 
-    private static CircuitTwin newOne() {
-        return new CircuitTwin();
-    }
-
-    /** With a text on the tape and another in OUT. */
-    private static CircuitTwin matching() {
-        CircuitTwin twin = Check.twin(XOR, GAPS);
-        twin.write(0, true, false);
-        Check.feed(twin, Check.bytes(ONE));
-        return twin;
-    }
-
-    /** The latest loads of both circuits were wrong; the tape has the beginning of a text. */
-    private static CircuitTwin behindErrors() {
-        CircuitTwin twin = Check.twin(GAPS, XOR);
-        Check.load(twin, 0, "aag 9 1 0 1 0\n2\n18\n");
-        Check.load(twin, 1, "aag 0 0");
-        twin.write(1, false, true);
-        Check.feed(twin, Check.bytes("aag 3 2 0 1 1\n2\n4\n6\n6 "));
-        return twin;
-    }
-
-    private static CircuitTwin notMatching() {
-        CircuitTwin twin = Check.twin(XOR, ONE);
-        twin.write(1, false, false);
-        Check.feed(twin, Check.bytes(GAPS + "c\n"));
-        return twin;
-    }
-
-    /** Every bound of the document at once; it takes more calls than the document's 512 to come here. */
-    private static CircuitTwin full() {
-        String text = Texts.full();
-        CircuitTwin twin = Check.twin(text, text);
-        twin.write(0, false, false);
-        Check.feed(twin, Check.bytes(text + "c\n" + "z".repeat(8192 - text.length() - 2)));
-        return twin;
-    }
-
-    private static void check(String name, Maker maker) {
+    private static void check(String name, States.Maker maker) {
         asked = maker.make();
+        noLiterals = new int[][] {noLiterals(0), noLiterals(1)};
         rows = new ArrayList<>();
         addAll();
-        String before = State.of(maker.make());
+        Map<String, String> before = State.of(maker.make());
         for (Row row : rows) {
-            CircuitTwin twin = maker.make();
+            Twin twin = maker.make();
             Check.sentence(row.sentence);
-            Check.due(name + ": " + row.name, row.exception, () -> row.call.on(twin));
+            Check.due(name + ": " + row.name, row.exception, () -> twin.last(row.call));
             Check.due(name + ": what changed by " + row.name, "nothing", () -> State.difference(before, State.of(twin)));
         }
         Check.sentence("a call that throws changes nothing");
-        CircuitTwin twin = maker.make();
-        for (Row row : rows) {
-            Check.due(name + ": in a row, " + row.name, row.exception, () -> row.call.on(twin));
+        for (int from = 0; from < rows.size(); from += IN_A_ROW) {
+            Twin twin = maker.make();
+            for (Row row : rows.subList(from, Math.min(from + IN_A_ROW, rows.size()))) {
+                Check.due(name + ": in a row, " + row.name, row.exception, () -> twin.last(row.call));
+            }
+            Check.due(name + ": what changed by all", "nothing", () -> State.difference(before, State.of(twin)));
         }
-        Check.due(name + ": what changed by all", "nothing", () -> State.difference(before, State.of(twin)));
     }
 
     private static void addAll() {
@@ -123,7 +78,7 @@ final class RefusedCallsTest {
         look();
     }
 
-    private static void add(String name, String exception, Refused call) {
+    private static void add(String name, String exception, Twin.Call call) {
         rows.add(new Row(sentence, name, exception, call));
     }
 
@@ -136,7 +91,7 @@ final class RefusedCallsTest {
     private static void addNoLiterals(String name, OfLiteral call) {
         for (int c = 0; c < 2; c++) {
             int circuit = c;
-            for (int literal : noLiterals(c)) {
+            for (int literal : noLiterals[c]) {
                 add(name + " of circuit " + c + ", literal " + literal, Check.ARGUMENT, twin -> call.on(twin, circuit, literal));
             }
         }
@@ -166,11 +121,6 @@ final class RefusedCallsTest {
         sentence = "Promise 2: Throws IllegalArgumentException when n is not 1 .. 8;";
         for (int n : new int[] {0, 9, -1, Integer.MIN_VALUE, Integer.MAX_VALUE}) {
             add("feed " + n, Check.ARGUMENT, twin -> twin.feed(n, -1L));
-        }
-        sentence = "Promise 2: IllegalStateException when it would have more than 8192.";
-        for (int n = 1; n <= 8 && asked.look(0, 7) == 8192; n++) {
-            int fed = n;
-            add("feed " + n, Check.STATE, twin -> twin.feed(fed, -1L));
         }
     }
 

@@ -25,7 +25,7 @@ final class SizeBoundsTest {
 
     /** A right text of these sizes, and all that tells them. */
     private static void right(boolean binary, int largest, int inputs, int outputs, int gates) {
-        CircuitTwin twin = new CircuitTwin();
+        Twin twin = new Twin();
         String text = Texts.chain(binary, largest, inputs, outputs, gates);
         String name = text.substring(0, text.indexOf('\n'));
         Check.due(name, 0, () -> Check.load(twin, 0, text));
@@ -99,7 +99,7 @@ final class SizeBoundsTest {
         tooLarge(false, 1001, 2, 1, 2);
         tooLarge(false, 1001, 0, 0, 0);
         tooLarge(true, 1001, 2, 1, 2);
-        CircuitTwin twin = Check.twin("aag 1000 1 0 2 1\n2000\n2001\n1998\n1998 2001 2001\n", "aag 0 0 0 0 0\n");
+        Twin twin = Check.twin("aag 1000 1 0 2 1\n2000\n2001\n1998\n1998 2001 2001\n", "aag 0 0 0 0 0\n");
         Check.due("value of 1998", 1, () -> twin.value(0, 1998, 0));
         Check.due("value of 2000", 0, () -> twin.value(0, 2000, 0));
         Check.due("value of 2001", 1, () -> twin.value(0, 2001, 0));
@@ -144,7 +144,7 @@ final class SizeBoundsTest {
         Check.sentence("variable 0 is always 0");
         for (String text : new String[] {"aag 0 0 0 2 0\n0\n1\n", "aig 0 0 0 2 0\n0\n1\n", "aag 9 3 0 2 0\n4\n2\n18\n0\n1\n",
             Texts.chain(true, 14, 14, 1, 0)}) {
-            CircuitTwin twin = Check.twin(text, text);
+            Twin twin = Check.twin(text, text);
             int last = (1 << twin.look(0, 0)) - 1;
             for (int c = 0; c < 2; c++) {
                 int circuit = c;
@@ -164,7 +164,7 @@ final class SizeBoundsTest {
 
     private static void standing() {
         Check.sentence("an input or a gate stands for one variable above 0, others stand for nothing");
-        CircuitTwin twin = Check.twin("aag 9 1 0 1 1\n6\n6\n12 6 6\n", "aag 0 0 0 0 0\n");
+        Twin twin = Check.twin("aag 9 1 0 1 1\n6\n6\n12 6 6\n", "aag 0 0 0 0 0\n");
         for (int literal = -4; literal <= 24; literal++) {
             int asked = literal;
             int variable = literal >> 1;
@@ -180,7 +180,7 @@ final class SizeBoundsTest {
 
     private static void literals() {
         Check.sentence("LITERALS: 2 * v is variable v, 2 * v + 1 it inverted.");
-        CircuitTwin twin = Check.twin("aag 3 2 0 2 1\n2\n4\n6\n7\n6 2 5\n", "aag 0 0 0 0 0\n");
+        Twin twin = Check.twin("aag 3 2 0 2 1\n2\n4\n6\n7\n6 2 5\n", "aag 0 0 0 0 0\n");
         for (int variable = 0; variable <= 3; variable++) {
             for (int x = 0; x < 4; x++) {
                 int literal = 2 * variable;
@@ -197,7 +197,7 @@ final class SizeBoundsTest {
         int[][] rows = {{2, 4, 3}, {4, 2, 3}, {2, 5, 1}, {3, 4, 2}, {3, 5, 0}};
         for (int[] row : rows) {
             String output = row[2] % 2 == 0 ? "6\n" : "7\n";
-            CircuitTwin twin = Check.twin("aag 3 2 0 1 1\n2\n4\n" + output + "6 " + row[0] + " " + row[1] + "\n", "aag 0 0 0 0 0\n");
+            Twin twin = Check.twin("aag 3 2 0 1 1\n2\n4\n" + output + "6 " + row[0] + " " + row[1] + "\n", "aag 0 0 0 0 0\n");
             for (int x = 0; x < 4; x++) {
                 int vector = x;
                 Check.due(row[0] + " AND " + row[1] + " at " + x, x == row[2] ? 1 : 0, () -> twin.value(0, 6, vector));
@@ -206,7 +206,7 @@ final class SizeBoundsTest {
         }
         int[][] ofOne = {{2, 2, 2}, {2, 3, 0}, {3, 3, 1}, {2, 0, 0}, {2, 1, 2}, {0, 0, 0}, {0, 1, 0}, {1, 1, 3}};
         for (int[] row : ofOne) {
-            CircuitTwin twin = Check.twin("aag 2 1 0 0 1\n2\n4 " + row[0] + " " + row[1] + "\n", "aag 0 0 0 0 0\n");
+            Twin twin = Check.twin("aag 2 1 0 0 1\n2\n4 " + row[0] + " " + row[1] + "\n", "aag 0 0 0 0 0\n");
             Check.due(row[0] + " AND " + row[1] + " at 0", row[2] % 2, () -> twin.value(0, 4, 0));
             Check.due(row[0] + " AND " + row[1] + " at 1", row[2] / 2, () -> twin.value(0, 4, 1));
         }
@@ -216,7 +216,7 @@ final class SizeBoundsTest {
         Check.sentence("M is I + A; input k (from 0 on) is variable k + 1, gate k variable I + 1 + k.");
         for (int[] sizes : new int[][] {{0, 0}, {0, 1}, {1, 0}, {1, 1}, {14, 0}, {0, 300}, {14, 300}, {13, 7}}) {
             int inputs = sizes[0];
-            CircuitTwin twin = Check.twin("aag 0 0 0 0 0\n", Texts.chain(true, inputs + sizes[1], inputs, 0, sizes[1]));
+            Twin twin = Check.twin("aag 0 0 0 0 0\n", Texts.chain(true, inputs + sizes[1], inputs, 0, sizes[1]));
             Check.due("M", inputs + sizes[1], () -> twin.look(1, 3));
             for (int what = 0; what < 2; what++) {
                 int first = what == 0 ? 2 : 2 * inputs + 2;
@@ -232,7 +232,7 @@ final class SizeBoundsTest {
 
     private static void firstCircuits() {
         Check.sentence("Circuits 0 and 1 have no inputs, gates and outputs at first (M 0).");
-        CircuitTwin twin = new CircuitTwin();
+        Twin twin = new Twin();
         for (int c = 0; c < 2; c++) {
             int circuit = c;
             for (int what = 0; what <= 8; what++) {
@@ -253,7 +253,7 @@ final class SizeBoundsTest {
     private static void vectors() {
         Check.sentence("A VECTOR x is 0 .. 2^I - 1");
         for (int inputs = 0; inputs <= 14; inputs++) {
-            CircuitTwin twin = Check.twin(Texts.chain(true, inputs, inputs, 0, 0), Texts.chain(false, inputs, inputs, 0, 0));
+            Twin twin = Check.twin(Texts.chain(true, inputs, inputs, 0, 0), Texts.chain(false, inputs, inputs, 0, 0));
             int count = 1 << inputs;
             for (int c = 0; c < 2; c++) {
                 int circuit = c;
@@ -278,7 +278,7 @@ final class SizeBoundsTest {
             for (int k = 0; k < inputs; k++) {
                 turned.append(40 - 2 * k + "\n");
             }
-            CircuitTwin twin = Check.twin(turned.toString(), Texts.chain(true, inputs, inputs, 0, 0));
+            Twin twin = Check.twin(turned.toString(), Texts.chain(true, inputs, inputs, 0, 0));
             int last = (1 << inputs) - 1;
             for (int k = 0; k < inputs; k++) {
                 bitOfInput(twin, 0, 40 - 2 * k, k, last);
@@ -287,7 +287,7 @@ final class SizeBoundsTest {
         }
     }
 
-    private static void bitOfInput(CircuitTwin twin, int circuit, int literal, int k, int last) {
+    private static void bitOfInput(Twin twin, int circuit, int literal, int k, int last) {
         String name = "input " + k + " of circuit " + circuit + " up to " + last + ": ";
         int bit = 1 << k;
         Check.due(name + "its literal", literal, () -> twin.literal(circuit, 0, k));
@@ -308,7 +308,7 @@ final class SizeBoundsTest {
         Check.sentence("INPUTS (I, 14 at most), GATES (A, 300 at most), OUTPUTS (O, 16 at most), and VARIABLES 0 .. M");
         String text = Texts.full();
         Model model = Model.read(text);
-        CircuitTwin twin = new CircuitTwin();
+        Twin twin = new Twin();
         Check.due("load", 0, () -> Check.load(twin, 1, text));
         int[] due = {14, 300, 16, 1000, 0, 0, 300, 0, 0};
         for (int what = 0; what < due.length; what++) {
@@ -328,7 +328,7 @@ final class SizeBoundsTest {
 
     private static void lastCalls() {
         Check.sentence("An object is used for at most 512 calls after it has been made");
-        CircuitTwin twin = new CircuitTwin();
+        Twin twin = new Twin();
         String text = "aag 3 2 0 1 1\n2\n4\n6\n6 4 2\n";
         for (int i = 0; i < text.length(); i++) {
             twin.feed(1, text.charAt(i));

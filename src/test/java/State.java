@@ -1,75 +1,122 @@
 import java.util.ArrayList;
+import java.util.Arrays;
+import java.util.LinkedHashMap;
 import java.util.List;
+import java.util.Map;
 
-/** What can be seen of an object, as one text: every look, OUT whole, and of many literals the first and the last ones. */
+/**
+ * What can be seen of an object, part by part: each circuit (of many literals the first and the last ones), the error
+ * of its latest load, both circuits together, OUT, and the tape, whose text is seen by loading it.
+ */
 final class State {
-    private final StringBuilder seen = new StringBuilder();
-    private final CircuitTwin twin;
+    static final String FIRST = "circuit 0";
+    static final String SECOND = "circuit 1";
+    static final String FIRST_ERROR = "error of circuit 0";
+    static final String SECOND_ERROR = "error of circuit 1";
+    static final String BOTH = "both circuits";
+    static final String OUT = "OUT";
+    static final String TAPE = "tape";
 
-    private State(CircuitTwin twin) {
+    private final Map<String, String> parts = new LinkedHashMap<>();
+    private final StringBuilder seen = new StringBuilder();
+    private final Twin twin;
+
+    private State(Twin twin) {
         this.twin = twin;
     }
 
-    /** What can be seen, then the tape's text by loading it, and what can be seen behind that. */
-    static String of(CircuitTwin twin) {
+    /** All parts by their names; the tape is used up by that. */
+    static Map<String, String> of(Twin twin) {
         State state = new State(twin);
-        state.see();
-        state.add("load", () -> twin.load(1));
-        state.see();
-        return state.seen.toString();
+        state.seeCircuit(0);
+        state.endPart(FIRST);
+        state.seeCircuit(1);
+        state.endPart(SECOND);
+        state.seeLooks(0, 4, 5);
+        state.endPart(FIRST_ERROR);
+        state.seeLooks(1, 4, 5);
+        state.endPart(SECOND_ERROR);
+        state.seeBoth();
+        state.endPart(BOTH);
+        state.seeLooks(0, 8);
+        state.seeLooks(1, 8);
+        state.add("out", () -> Check.outText(twin));
+        state.endPart(OUT);
+        state.seeTape();
+        state.endPart(TAPE);
+        return state.parts;
     }
 
-    /** The first of all that is not the same, "nothing" without one. */
-    static String difference(String before, String behind) {
-        String[] one = before.split(" ");
-        String[] two = behind.split(" ");
-        for (int i = 0; i < Math.min(one.length, two.length); i++) {
-            if (!one[i].equals(two[i])) {
-                return one[i] + " became " + two[i] + " at " + i;
+    /** The first thing that is not the same, but in parts that may change; "nothing" without one. */
+    static String difference(Map<String, String> before, Map<String, String> behind, String... mayChange) {
+        for (String part : before.keySet()) {
+            if (!Arrays.asList(mayChange).contains(part) && !before.get(part).equals(behind.get(part))) {
+                return part + ": " + firstDifference(before.get(part).split("\t"), behind.get(part).split("\t"));
             }
         }
-        return one.length == two.length ? "nothing" : "the length";
+        return "nothing";
+    }
+
+    private static String firstDifference(String[] one, String[] two) {
+        for (int i = 0; i < Math.min(one.length, two.length); i++) {
+            if (!one[i].equals(two[i])) {
+                return one[i] + " became " + two[i];
+            }
+        }
+        return "how much there is";
+    }
+
+    private void endPart(String name) {
+        parts.put(name, seen.toString());
+        seen.setLength(0);
     }
 
     private void add(String name, Check.Call call) {
-        seen.append(name).append('=').append(Check.answerOf(call)).append(' ');
+        seen.append(name).append('=').append(Check.answerOf(call)).append('\t');
     }
 
-    private void see() {
-        for (int c = 0; c < 2; c++) {
-            int circuit = c;
-            for (int what = 0; what <= 8; what++) {
-                int asked = what;
-                add("look" + what, () -> twin.look(circuit, asked));
-            }
-            seeLiterals(circuit);
-            add("functions", () -> twin.functions(circuit));
+    private void seeLooks(int circuit, int... whats) {
+        for (int what : whats) {
+            add("look " + what, () -> twin.look(circuit, what));
         }
+    }
+
+    private void seeBoth() {
         add("compare", () -> twin.compare());
         add("witness", () -> twin.witness(0));
         add("allFunctions", () -> twin.allFunctions());
-        add("out", () -> Check.outText(twin));
-        seen.append('\n');
+        add("same", () -> twin.same(1, 1));
     }
 
-    private void seeLiterals(int circuit) {
+    private void seeTape() {
+        seeLooks(0, 7);
+        seeLooks(1, 7);
+        add("load", () -> twin.load(1));
+        seeLooks(1, 4, 5, 7);
+        if (twin.look(1, 4) == 0) {
+            seeCircuit(1);
+        }
+    }
+
+    private void seeCircuit(int circuit) {
+        seeLooks(circuit, 0, 1, 2, 3, 6);
+        add("functions", () -> twin.functions(circuit));
         List<Integer> literals = new ArrayList<>();
         for (int what = 0; what < 3; what++) {
             int count = twin.look(circuit, what);
-            // of many the first and the last ones
             for (int k = 0; k < count; k++) {
                 if (k < 3 || k >= count - 3) {
                     literals.add(twin.literal(circuit, what, k));
                 }
             }
         }
-        int inputs = twin.look(circuit, 0);
+        int last = twin.look(circuit, 0) - 1;
         for (int literal : literals) {
             add("leader of " + literal, () -> twin.leader(circuit, literal));
             add("least", () -> twin.least(circuit, literal, 0));
             add("greatest", () -> twin.greatest(circuit, literal));
             add("rises", () -> twin.rises(circuit, literal, 0));
-            add("rises", () -> twin.rises(circuit, literal, inputs - 1));
+            add("rises", () -> twin.rises(circuit, literal, last));
             for (int other : literals) {
                 add("implies " + other, () -> twin.implies(circuit, literal, other));
             }

@@ -22,14 +22,19 @@ final class Texts {
 
     /** An aag of the greatest size: inputs on variables 1000, 999 .., gates on 1 .. 300, each output another gate. */
     static String full() {
-        StringBuilder text = new StringBuilder("aag 1000 14 0 16 300\n");
+        return wide(300);
+    }
+
+    /** The same with fewer gates, 16 at least. */
+    static String wide(int gates) {
+        StringBuilder text = new StringBuilder("aag 1000 14 0 16 " + gates + "\n");
         for (int k = 0; k < 14; k++) {
             text.append(2000 - 2 * k + "\n");
         }
         for (int k = 0; k < 16; k++) {
-            text.append(600 - 2 * k + "\n");
+            text.append(2 * gates - 2 * k + "\n");
         }
-        for (int k = 1; k <= 300; k++) {
+        for (int k = 1; k <= gates; k++) {
             text.append(2 * k + " " + (2001 - 2 * (k % 14)) + " " + (k == 1 ? 2000 : 2 * k - 1) + "\n");
         }
         return text.toString();

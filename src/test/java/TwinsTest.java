@@ -17,15 +17,15 @@ final class TwinsTest {
     }
 
     private static void equalAndNot() {
-        CircuitTwin twin = Check.twin(FIRST, SECOND);
+        Twin twin = Check.twin(FIRST, SECOND);
         Check.due("compare", 1, () -> twin.compare());
         Check.due("witness 0", -1, () -> twin.witness(0));
         Check.due("witness 1", 1, () -> twin.witness(1));
-        CircuitTwin turned = Check.twin("aag 2 2 0 2 0\n2\n4\n2\n5\n", "aag 2 2 0 2 0\n4\n2\n2\n4\n");
+        Twin turned = Check.twin("aag 2 2 0 2 0\n2\n4\n2\n5\n", "aag 2 2 0 2 0\n4\n2\n2\n4\n");
         Check.due("inputs go by their order", 0, () -> turned.compare());
         Check.due("witness 0", 1, () -> turned.witness(0));
         Check.due("witness 1", 0, () -> turned.witness(1));
-        CircuitTwin alike = Check.twin(SECOND, SECOND);
+        Twin alike = Check.twin(SECOND, SECOND);
         Check.due("compare with itself", -1, () -> alike.compare());
         for (int output : new int[] {-1, 2, 16, Integer.MAX_VALUE, Integer.MIN_VALUE}) {
             Check.due("witness " + output, Check.ELEMENT, () -> twin.witness(output));
@@ -33,12 +33,12 @@ final class TwinsTest {
     }
 
     private static void countsOfOutputs() {
-        CircuitTwin twin = Check.twin(FIRST, "aag 2 2 0 3 0\n2\n4\n2\n2\n2\n");
+        Twin twin = Check.twin(FIRST, "aag 2 2 0 3 0\n2\n4\n2\n2\n2\n");
         Check.due("compare", -2, () -> twin.compare());
         Check.due("witness 0", 2, () -> twin.witness(0));
         Check.due("witness 1", 1, () -> twin.witness(1));
         Check.due("witness 2", Check.ELEMENT, () -> twin.witness(2));
-        CircuitTwin none = Check.twin("aag 2 2 0 0 0\n2\n4\n", FIRST);
+        Twin none = Check.twin("aag 2 2 0 0 0\n2\n4\n", FIRST);
         Check.due("compare", -2, () -> none.compare());
         Check.due("witness 0", Check.ELEMENT, () -> none.witness(0));
         Check.due("load", 0, () -> Check.load(none, 1, "aig 2 2 0 0 0\n"));
@@ -46,7 +46,7 @@ final class TwinsTest {
     }
 
     private static void noMatch() {
-        CircuitTwin twin = Check.twin(FIRST, "aag 3 3 0 1 0\n2\n4\n6\n6\n");
+        Twin twin = Check.twin(FIRST, "aag 3 3 0 1 0\n2\n4\n6\n6\n");
         Check.due("compare, though outputs are not as many", Check.STATE, () -> twin.compare());
         Check.due("witness", Check.STATE, () -> twin.witness(0));
         Check.due("witness of no output", Check.STATE, () -> twin.witness(99));
@@ -59,7 +59,7 @@ final class TwinsTest {
     }
 
     private static void sameLiterals() {
-        CircuitTwin twin = Check.twin(FIRST, SECOND);
+        Twin twin = Check.twin(FIRST, SECOND);
         int[][] rows = {{10, 11, 1}, {10, 10, -1}, {11, 10, 1}, {11, 11, -1}, {8, 12, 1}, {8, 13, -1}, {2, 2, 1}, {2, 3, -1},
             {2, 4, 0}, {0, 0, 1}, {0, 1, -1}, {1, 1, 1}, {1, 0, -1}, {6, 6, 0}, {6, 10, 0}, {0, 10, 0}};
         for (int[] row : rows) {
@@ -74,7 +74,7 @@ final class TwinsTest {
     }
 
     private static void countsOfFunctions() {
-        CircuitTwin twin = Check.twin(FIRST, SECOND);
+        Twin twin = Check.twin(FIRST, SECOND);
         // 0, two inputs; AND, NOR, XOR; and the two with one input alone
         Check.due("functions of 0", 6, () -> twin.functions(0));
         Check.due("functions of 1", 7, () -> twin.functions(1));
@@ -96,7 +96,7 @@ final class TwinsTest {
         for (int k = 2; k <= 13; k++) {
             text.append((28 + 2 * k) + " " + (26 + 2 * k) + " " + (2 * k + 2) + "\n");
         }
-        CircuitTwin twin = Check.twin(text.toString(), "aig 14 14 0 2 0\n0\n0\n");
+        Twin twin = Check.twin(text.toString(), "aig 14 14 0 2 0\n0\n0\n");
         Check.due("compare", 0, () -> twin.compare());
         Check.due("witness 0", 16383, () -> twin.witness(0));
         Check.due("witness 1", 8191, () -> twin.witness(1));

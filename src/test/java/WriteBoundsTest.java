@@ -30,7 +30,7 @@ final class WriteBoundsTest {
     }
 
     private static void due(String text, boolean binary, boolean reduced, String want) {
-        CircuitTwin twin = Check.twin(NONE, text);
+        Twin twin = Check.twin(NONE, text);
         String call = "write(1, " + binary + ", " + reduced + ") of " + text;
         Check.due(call, want.length(), () -> twin.write(1, binary, reduced));
         Check.due("text of " + call, want, () -> Check.outText(twin));
@@ -38,7 +38,7 @@ final class WriteBoundsTest {
     }
 
     private static void dueDepth(String text, int want) {
-        CircuitTwin twin = Check.twin(NONE, text);
+        Twin twin = Check.twin(NONE, text);
         Check.due("look 6 of " + text, want, () -> twin.look(1, 6));
         Check.due("look 6 of the other", 0, () -> twin.look(0, 6));
     }
@@ -70,7 +70,7 @@ final class WriteBoundsTest {
         dueDepth("aag 4 1 0 3 3\n2\n8\n4\n6\n" + gates, 3);
         dueDepth("aag 4 1 0 3 3\n2\n4\n9\n6\n" + gates, 3);
         dueDepth("aag 4 1 0 3 3\n2\n4\n2\n7\n" + gates, 2);
-        CircuitTwin twin = Check.twin("aag 4 1 0 1 3\n2\n9\n" + gates, NONE);
+        Twin twin = Check.twin("aag 4 1 0 1 3\n2\n9\n" + gates, NONE);
         Check.due("a wrong load", 1, () -> twin.load(0));
         Check.due("look 6 stays", 3, () -> twin.look(0, 6));
         Check.due("a right load of no outputs", 0, () -> Check.load(twin, 0, NONE));
@@ -78,7 +78,7 @@ final class WriteBoundsTest {
     }
 
     private static void dueLeaders(String text, int[][] rows) {
-        CircuitTwin twin = Check.twin(NONE, text);
+        Twin twin = Check.twin(NONE, text);
         for (int[] row : rows) {
             Check.due("leader of " + row[0] + " in " + text, row[1], () -> twin.leader(1, row[0]));
             Check.due("leader of its inverse", row[1] ^ 1, () -> twin.leader(1, row[0] ^ 1));
@@ -112,7 +112,7 @@ final class WriteBoundsTest {
         dueLeaders("aag 1000 0 0 0 1\n2000 0 1\n", new int[][] {{0, 0}, {2000, 0}});
         dueLeaders("aag 1000 1 0 0 1\n1998\n2000 1998 1998\n", new int[][] {{1998, 1998}, {2000, 1998}});
         // the other circuit's literals do not count
-        CircuitTwin twin = Check.twin("aag 3 2 0 0 1\n2\n4\n6 2 4\n", "aag 9 2 0 0 1\n2\n4\n18 2 4\n");
+        Twin twin = Check.twin("aag 3 2 0 0 1\n2\n4\n6 2 4\n", "aag 9 2 0 0 1\n2\n4\n18 2 4\n");
         Check.due("leader in circuit 0", 6, () -> twin.leader(0, 6));
         Check.due("leader in circuit 1", 18, () -> twin.leader(1, 18));
         for (int literal : new int[] {-1, 6, 7, 16, 17, 20, Integer.MIN_VALUE, Integer.MAX_VALUE}) {
@@ -273,7 +273,7 @@ final class WriteBoundsTest {
 
     private static void emptyOut() {
         Check.sentence("Two first circuits; OUT is empty.");
-        CircuitTwin twin = new CircuitTwin();
+        Twin twin = new Twin();
         Check.due("look 8", 0, () -> twin.look(0, 8));
         Check.due("look 8 of the other", 0, () -> twin.look(1, 8));
         for (int k : new int[] {0, 1, -1, 8, -8, Integer.MAX_VALUE, Integer.MIN_VALUE}) {
@@ -289,7 +289,7 @@ final class WriteBoundsTest {
 
     private static void latestOut() {
         Check.sentence("OUT the text that was written latest");
-        CircuitTwin twin = Check.twin(Texts.full(), NONE);
+        Twin twin = Check.twin(Texts.full(), NONE);
         int longest = twin.write(0, false, false);
         Check.due("look 8 of the longest", longest, () -> twin.look(1, 8));
         Check.due("a short one", 14, () -> twin.write(1, true, true));
@@ -306,16 +306,16 @@ final class WriteBoundsTest {
 
     private static void eightBytes() {
         Check.sentence("Eight bytes of OUT from k on, lowest first (0 behind its end).");
-        CircuitTwin twin = Check.twin("aig 66 1 0 1 65\n132\n" + "\2\1".repeat(64) + "\202\1\1", NONE);
+        Twin twin = Check.twin("aig 66 1 0 1 65\n132\n" + "\2\1".repeat(64) + "\202\1\1", NONE);
         // the last gate is the AND of 2 and 1 alone, so nothing else is needed
         Check.due("bytes", 18, () -> twin.write(0, true, false));
         dueEveryByte(twin, Check.bytes("aig 2 1 0 1 1\n4\n\2\1"));
-        CircuitTwin high = Check.twin("aig 66 1 0 1 65\n132\n" + "\2\0".repeat(64) + "\2\200\1", NONE);
+        Twin high = Check.twin("aig 66 1 0 1 65\n132\n" + "\2\0".repeat(64) + "\2\200\1", NONE);
         Check.due("bytes with a long step", 151, () -> high.write(0, true, false));
         dueEveryByte(high, Check.bytes("aig 66 1 0 1 65\n132\n" + "\2\0".repeat(64) + "\2\200\1"));
     }
 
-    private static void dueEveryByte(CircuitTwin twin, byte[] text) {
+    private static void dueEveryByte(Twin twin, byte[] text) {
         Check.due("the length", text.length, () -> twin.look(0, 8));
         for (int k = 0; k < text.length; k++) {
             int at = k;
@@ -353,7 +353,7 @@ final class WriteBoundsTest {
         due(aag.toString(), true, false, aig.toString());
         due(aig.toString(), false, false, aag.toString());
         due(aag.toString(), false, true, "aag 14 14 0 16 0\n" + aag.substring(20, 58) + "29\n".repeat(16));
-        CircuitTwin twin = Check.twin(aig.toString(), NONE);
+        Twin twin = Check.twin(aig.toString(), NONE);
         int length = aag.length();
         Check.due("bytes", length, () -> twin.write(0, false, false));
         Check.due("the last byte", 10L, () -> twin.out(length - 1));
@@ -361,7 +361,7 @@ final class WriteBoundsTest {
         Check.due("the last seven", 0x0A373236203732L, () -> twin.out(length - 7));
         Check.due("one too far", Check.ELEMENT, () -> twin.out(length));
         byte[] model = Model.read(Texts.full()).write(true);
-        CircuitTwin full = Check.twin(NONE, Texts.full());
+        Twin full = Check.twin(NONE, Texts.full());
         Check.due("a full aig", model.length, () -> full.write(1, true, false));
         Check.due("its text", new String(model, StandardCharsets.ISO_8859_1), () -> Check.outText(full));
         byte[] small = Model.read(Texts.full()).reduced().write(false);
@@ -371,7 +371,7 @@ final class WriteBoundsTest {
 
     private static void looks() {
         Check.sentence("7 bytes of the tape, 8 bytes of OUT (of both alike)");
-        CircuitTwin twin = Check.twin("aag 3 2 0 1 1\n2\n4\n6\n6 4 2\n", NONE);
+        Twin twin = Check.twin("aag 3 2 0 1 1\n2\n4\n6\n6 4 2\n", NONE);
         twin.feed(5, 0);
         twin.write(0, false, false);
         for (int circuit = 0; circuit < 2; circuit++) {

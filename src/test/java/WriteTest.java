@@ -15,7 +15,7 @@ final class WriteTest {
     }
 
     private static void due(String text, boolean binary, boolean reduced, String want) {
-        CircuitTwin twin = Check.twin(text, EMPTY);
+        Twin twin = Check.twin(text, EMPTY);
         String call = "write of " + text + binary + " " + reduced;
         Check.due(call, want.length(), () -> twin.write(0, binary, reduced));
         Check.due(call, want, () -> Check.outText(twin));
@@ -29,7 +29,7 @@ final class WriteTest {
             due("aag 9 2 0 2 0\n18\n4\n5\n1\nc\nx", false, reduced == 1, "aag 2 2 0 2 0\n2\n4\n5\n1\n");
             due("aag 9 2 0 2 0\n18\n4\n5\n1\n", true, reduced == 1, "aig 2 2 0 2 0\n5\n1\n");
         }
-        CircuitTwin twin = new CircuitTwin();
+        Twin twin = new Twin();
         Check.due("write of a new one", 14, () -> twin.write(1, true, true));
         Check.due("its text", "aig 0 0 0 0 0\n", () -> Check.outText(twin));
         Check.due("no such circuit", Check.ARGUMENT, () -> twin.write(-1, false, false));
@@ -93,7 +93,7 @@ final class WriteTest {
     }
 
     private static void outBytes() {
-        CircuitTwin twin = Check.twin("aag 2 1 0 1 1\n2\n5\n4 2 2\n", EMPTY);
+        Twin twin = Check.twin("aag 2 1 0 1 1\n2\n5\n4 2 2\n", EMPTY);
         Check.due("out before", Check.ELEMENT, () -> twin.out(0));
         Check.due("write", 24, () -> twin.write(0, false, false));
         Check.due("out 0", 0x2031203220676161L, () -> twin.out(0));
@@ -108,7 +108,7 @@ final class WriteTest {
         Check.due("nothing of the longer one", 0x0A302030L, () -> twin.out(10));
         Check.due("out 14", Check.ELEMENT, () -> twin.out(14));
         // the last byte but two of the steps is above 127: no negative number comes of it
-        CircuitTwin high = Check.twin("aag 66 1 0 1 65\n2\n132\n" + chainLines(), EMPTY);
+        Twin high = Check.twin("aag 66 1 0 1 65\n2\n132\n" + chainLines(), EMPTY);
         Check.due("write", 20 + 131, () -> high.write(0, true, false));
         Check.due("out of the last step", 0x018002L, () -> high.out(148));
     }
@@ -126,7 +126,7 @@ final class WriteTest {
         for (int run = 0; run < 200; run++) {
             int inputs = texts.below(7);
             String text = texts.text(inputs, texts.below(80), 1 + texts.below(16));
-            CircuitTwin twin = Check.twin(text, text);
+            Twin twin = Check.twin(text, text);
             boolean binary = run % 2 == 0;
             boolean reduced = run % 4 < 2;
             twin.write(0, binary, reduced);
@@ -142,7 +142,7 @@ final class WriteTest {
     }
 
     private static void looks() {
-        CircuitTwin twin = Check.twin("aag 20 3 0 2 4\n2\n4\n6\n10\n6\n8 2 4\n10 8 6\n12 10 3\n14 13 5\n", EMPTY);
+        Twin twin = Check.twin("aag 20 3 0 2 4\n2\n4\n6\n10\n6\n8 2 4\n10 8 6\n12 10 3\n14 13 5\n", EMPTY);
         int[] due = {3, 4, 2, 20, 0, 0, 2, 0, 0};
         for (int what = 0; what < due.length; what++) {
             int asked = what;
