@@ -19,7 +19,33 @@ final class LeavesTest {
 
     public static void main(String[] args) {
         States.all().forEach(LeavesTest::check);
+        errorsStay(0);
+        errorsStay(1);
         Check.end();
+    }
+
+    /** What a wrong load told stays up to the next load of the same circuit. */
+    private static void errorsStay(int circuit) {
+        Check.sentence("4 the error of the latest load of it (0 before, or if it was right), 5 its place (0 without one)");
+        Twin twin = Check.twin(States.GAPS, States.XOR);
+        Check.due("a wrong load", 7, () -> Check.load(twin, circuit, "aag 9 1 0 1 0\n2\n18\n"));
+        dueError(twin, circuit, "the load");
+        twin.feed(8, -1L);
+        dueError(twin, circuit, "feed");
+        twin.write(circuit, true, true);
+        dueError(twin, circuit, "write");
+        Check.due("a wrong load of the other", 1, () -> twin.load(1 - circuit));
+        dueError(twin, circuit, "a wrong load of the other");
+        Check.due("a right load of the other", 0, () -> Check.load(twin, 1 - circuit, States.ONE));
+        dueError(twin, circuit, "a right load of the other");
+        Check.due("a right load", 0, () -> Check.load(twin, circuit, States.ONE));
+        Check.due("no error", 0, () -> twin.look(circuit, 4));
+        Check.due("no place", 0, () -> twin.look(circuit, 5));
+    }
+
+    private static void dueError(Twin twin, int circuit, String behind) {
+        Check.due("the error behind " + behind, 7, () -> twin.look(circuit, 4));
+        Check.due("its place behind " + behind, 9, () -> twin.look(circuit, 5));
     }
 
     private static void check(String name, States.Maker maker) {

@@ -28,20 +28,21 @@ final class State {
     /** All parts by their names; the tape is used up by that. */
     static Map<String, String> of(Twin twin) {
         State state = new State(twin);
-        state.seeCircuit(0);
-        state.endPart(FIRST);
-        state.seeCircuit(1);
-        state.endPart(SECOND);
+        // the errors and OUT's length first, so that no call before this could have changed them in the same way
         state.seeLooks(0, 4, 5);
         state.endPart(FIRST_ERROR);
         state.seeLooks(1, 4, 5);
         state.endPart(SECOND_ERROR);
-        state.seeBoth();
-        state.endPart(BOTH);
         state.seeLooks(0, 8);
         state.seeLooks(1, 8);
         state.add("out", () -> Check.outText(twin));
         state.endPart(OUT);
+        state.seeCircuit(0);
+        state.endPart(FIRST);
+        state.seeCircuit(1);
+        state.endPart(SECOND);
+        state.seeBoth();
+        state.endPart(BOTH);
         state.seeTape();
         state.endPart(TAPE);
         return state.parts;

@@ -19,6 +19,7 @@ final class States {
         all.put("new", Twin::new);
         all.put("matching", States::matching);
         all.put("behind errors", States::behindErrors);
+        all.put("half a text", States::halfText);
         all.put("not matching", States::notMatching);
         all.put("full", States::full);
         return all;
@@ -32,12 +33,19 @@ final class States {
         return twin;
     }
 
-    /** The latest loads of both circuits were wrong; the tape has the beginning of a text. */
+    /** The latest loads of both circuits were wrong, and they were the latest calls. */
     private static Twin behindErrors() {
         Twin twin = Check.twin(GAPS, XOR);
-        Check.load(twin, 0, "aag 9 1 0 1 0\n2\n18\n");
-        Check.load(twin, 1, "aag 0 0");
         twin.write(1, false, true);
+        Check.due("a wrong load of circuit 0", 7, () -> Check.load(twin, 0, "aag 9 1 0 1 0\n2\n18\n"));
+        Check.due("a wrong load of circuit 1", 2, () -> Check.load(twin, 1, "aag 0 0"));
+        return twin;
+    }
+
+    /** The tape has the beginning of a text. */
+    private static Twin halfText() {
+        Twin twin = Check.twin(XOR, XOR);
+        twin.write(0, false, false);
         Check.feed(twin, Check.bytes("aag 3 2 0 1 1\n2\n4\n6\n6 "));
         return twin;
     }
